@@ -1,0 +1,72 @@
+import java.io.IOException;
+import java.nio.file.Files;
+import java.nio.file.Path;
+import java.util.regex.Matcher;
+import java.util.regex.Pattern;
+
+/** What can be seen of ../shared/LANGUAGE.md's rules in the source's own words. Runs in the project's directory. */
+public final class RulesTest {
+    private static final Check CHECK = new Check("RulesTest");
+
+    public static void main(String[] args) throws IOException {
+        String source = Files.readString(Path.of("src/main/java/LeftTurns.java"));
+        String code = source.replaceAll("(?s)/\\*.*?\\*/", "").replaceAll("//[^\n]*", "").replaceAll("\"[^\"\n]*\"", "\"\"");
+        words(code);
+        statics(code);
+        methods(code);
+        CHECK.end();
+    }
+
+    private static void none(String code, String pattern) {
+        Matcher m = Pattern.compile(pattern).matcher(code);
+        CHECK.due("'" + pattern + "' stands in the source", m.find() ? 1 : 0, 0);
+    }
+
+    private static void words(String code) {
+        String[] never = {"throw", "throws", "try", "catch", "synchronized", "assert", "protected", "package", "volatile",
+            "transient", "native", "record", "var", "double", "float", "String\\.format", "System\\.out", "Math\\.random",
+            "\\w+Exact", "yield", "instanceof", "finally", "interface", "abstract", "hashCode", "toString"};
+        for (String word : never) {
+            none(code, "\\b" + word + "\\b");
+        }
+        none(code, "->");
+        none(code, "::");
+        none(code, "\\+ *\"\"|\"\" *\\+");
+        none(code, "\\b(while|for) *\\((true|;;)");
+        none(code, "import (?!java\\.util\\.Arrays;)");
+        none(code, "(?m)^\\s*static *\\{");
+        for (char c : code.toCharArray()) {
+            if (c > 126) {
+                CHECK.due("a sign beyond 126", c, 0);
+            }
+        }
+    }
+
+    private static void statics(String code) {
+        Matcher m = Pattern.compile("(?m)^.*\\bstatic\\b.*[;=].*$").matcher(code);
+        while (m.find()) {
+            String line = m.group();
+            if (line.contains("(") && !line.contains("=")) {
+                continue;
+            }
+            boolean constant = line.matches("\\s*(public |private )?static final (int|long|String|int\\[\\]) [A-Z_0-9]+ = .*;");
+            CHECK.due("a constant: " + line, constant ? 1 : 0, 1);
+        }
+    }
+
+    private static void methods(String code) {
+        String[] lines = code.split("\n");
+        int begun = -1;
+        String indent = "";
+        for (int i = 0; i < lines.length; i++) {
+            String line = lines[i];
+            if (begun < 0 && line.matches("    (    )?\\S.*\\) \\{") && !line.matches(".*\\b(if|for|while|switch|else)\\b.*")) {
+                begun = i;
+                indent = line.replaceFirst("\\S.*", "");
+            } else if (begun >= 0 && line.equals(indent + "}")) {
+                CHECK.due("at most sixty lines: " + lines[begun].trim(), i - begun + 1 <= 60 ? 1 : 0, 1);
+                begun = -1;
+            }
+        }
+    }
+}
