@@ -61,15 +61,16 @@ public final class LeftTurns {
         City city = new City();
         City read = new City();
         Forecast ahead = new Forecast(city);
-        Routes paths = new Routes(city, ahead);
+        Spread ways = new Spread(city, ahead);
+        Routes paths = new Routes(city, ahead, ways);
         now = city;
         spare = read;
         reader = new Reader(read);
         forecast = ahead;
         routes = paths;
-        rounds = new Rounds(paths);
+        rounds = new Rounds(ways, paths);
         tally = new Tally(city, ahead);
-        spread = new Spread(city, ahead);
+        spread = ways;
         hunt = new Hunt(city);
         trays = new Tray[TRAYS];
         for (int i = 0; i < TRAYS; i++) {
@@ -337,7 +338,7 @@ public final class LeftTurns {
         if (k < 0 || k > MOST_WAY_LEFTS) {
             return CANNOT_BE;
         }
-        return routes.shortest(now.folk.stand(p), c, k) ? routes.length() : NONE;
+        return spread.fewestStreets(now.folk.stand(p), c, k, MOST_STREETS, 0);
     }
 
     public int turn(int p, int c, int k, int i) {
@@ -360,7 +361,7 @@ public final class LeftTurns {
         if (n < 0 || n > MOST_STREETS) {
             return CANNOT_BE;
         }
-        return routes.leastLefts(now.folk.stand(p), c, n, 0);
+        return spread.fewestLefts(now.folk.stand(p), 0, c, n, 0);
     }
 
     public int cheapest(int p, int c, int n) {
@@ -370,7 +371,7 @@ public final class LeftTurns {
         if (n < 0 || n > MOST_STREETS) {
             return CANNOT_BE;
         }
-        return routes.leastCoins(now.folk.stand(p), c, n);
+        return tally.leastCoins(now.folk.stand(p), c, n);
     }
 
     public long ways(int p, int c, int n, int k) {
@@ -380,7 +381,7 @@ public final class LeftTurns {
         if (n < 0 || n > Tally.STREETS || k < 0 || k > Tally.LEFTS) {
             return CANNOT_BE;
         }
-        return tally.paths(now.folk.stand(p), c, n, k);
+        return tally.waysOfJust(now.folk.stand(p), c, n, k);
     }
 
     public int reach(int p, int k) {
@@ -390,14 +391,14 @@ public final class LeftTurns {
         if (k < 0 || k > MOST_WAY_LEFTS) {
             return CANNOT_BE;
         }
-        return routes.reachable(now.folk.stand(p), k);
+        return spread.reachable(now.folk.stand(p), k);
     }
 
     public int enough(int p) {
         if (!isPerson(p)) {
             return NO_SUCH;
         }
-        return routes.leastForAll(now.folk.stand(p));
+        return spread.leastForAll(now.folk.stand(p));
     }
 
     public int byRights(int c, int direction) {
@@ -450,10 +451,10 @@ public final class LeftTurns {
             return CANNOT_BE;
         }
         int stand = now.folk.stand(p);
-        int least = routes.leastLefts(stand, c, n, 0);
+        int least = spread.fewestLefts(stand, 0, c, n, 0);
         int best = NONE;
         for (int corner = 0; corner < now.crossings() && least > 0; corner++) {
-            int lefts = routes.leastLefts(stand, c, n, 1 << corner);
+            int lefts = spread.fewestLefts(stand, 0, c, n, 1 << corner);
             if (lefts < least) {
                 least = lefts;
                 best = corner;
@@ -780,30 +781,33 @@ public final class LeftTurns {
             int top = 0;
             for (int i = 0; i < size; i++) {
                 int part = code[i];
-                if (part >= FIRST_JOIN) {
-                    if (top >= 2) {
-                        top--;
-                        stack[top - 1] = joined(part, stack[top - 1], stack[top]);
+                if (part < FIRST_JOIN) {
+                    if (top < stack.length) {
+                        stack[top] = part >= FIRST_NAME && part <= HEAD ? names[part - FIRST_NAME] : part;
+                        top++;
                     }
-                } else if (top < stack.length) {
-                    stack[top] = part >= FIRST_NAME && part <= HEAD ? names[part - FIRST_NAME] : part;
-                    top++;
+                    continue;
                 }
+                if (top < 2) {
+                    continue;
+                }
+                top--;
+                long a = stack[top - 1];
+                long b = stack[top];
+                long joined;
+                switch (part) {
+                    case PLUS: joined = a + b; break;
+                    case MINUS: joined = a - b; break;
+                    case TIMES: joined = a * b; break;
+                    case EQUAL: joined = a == b ? 1 : 0; break;
+                    case LESS: joined = a < b ? 1 : 0; break;
+                    case MORE: joined = a > b ? 1 : 0; break;
+                    case AND: joined = a & b; break;
+                    default: joined = a | b; break;
+                }
+                stack[top - 1] = (int) Math.max(-BOUND, Math.min(BOUND, joined));
             }
             return stack[0];
-        }
-
-        private static int joined(int join, int a, int b) {
-            switch (join) {
-                case PLUS: return Math.max(-BOUND, Math.min(BOUND, a + b));
-                case MINUS: return Math.max(-BOUND, Math.min(BOUND, a - b));
-                case TIMES: return (int) Math.max(-BOUND, Math.min(BOUND, (long) a * b));
-                case EQUAL: return a == b ? 1 : 0;
-                case LESS: return a < b ? 1 : 0;
-                case MORE: return a > b ? 1 : 0;
-                case AND: return a & b;
-                default: return a | b;
-            }
         }
     }
 
@@ -994,7 +998,7 @@ public final class LeftTurns {
 
         int freeBits(int hours) {
             int free = toldFree;
-            for (int c = 0; c < crossings(); c++) {
+            for (int c = 0; c < MOST_CROSSINGS; c++) {
                 if (folk.fogEnds[c] > hours) {
                     free |= 1 << c;
                 }
@@ -1398,35 +1402,33 @@ public final class LeftTurns {
         private static final int HOURS = MOST_STOPS * MOST_STREETS;
 
         private final City city;
-        /** By the hour, NONE where it hasn't been asked yet. */
         private final int[] free = new int[HOURS];
         /** By the hour and the direction one goes in: of which crossings it is known, and which allow it. */
         private final int[] asked = new int[4 * HOURS];
         private final int[] allowed = new int[4 * HOURS];
-        private boolean blank;
+        /** So many hours have been begun since all was forgotten. */
+        private int begun;
 
         Forecast(City city) {
             this.city = city;
         }
 
         void forget() {
-            blank = false;
+            begun = 0;
         }
 
-        private void begin() {
-            Arrays.fill(free, NONE);
-            Arrays.fill(asked, 0);
-            Arrays.fill(allowed, 0);
-            blank = true;
+        private void beginUpTo(int t) {
+            for (; begun <= t; begun++) {
+                free[begun] = city.freeBits(city.folk.hours + begun);
+                for (int d = 0; d < 4; d++) {
+                    asked[4 * begun + d] = 0;
+                    allowed[4 * begun + d] = 0;
+                }
+            }
         }
 
         int freeAt(int t) {
-            if (!blank) {
-                begin();
-            }
-            if (free[t] < 0) {
-                free[t] = city.freeBits(city.folk.hours + t);
-            }
+            beginUpTo(t);
             return free[t];
         }
 
@@ -1435,9 +1437,7 @@ public final class LeftTurns {
             if (!city.mayLaw.isTold() || city.wide <= 0) {
                 return set;
             }
-            if (!blank) {
-                begin();
-            }
+            beginUpTo(t);
             int row = 4 * t + d;
             int open = set & ~asked[row];
             for (int c = 0; c < MOST_CROSSINGS && open >> c != 0; c++) {
@@ -1450,8 +1450,8 @@ public final class LeftTurns {
             return set & allowed[row];
         }
 
-        /** The lefts that a turn takes, NONE if the law forbids it; more crossings are free than the city's. */
-        int lefts(int t, int stand, int turn, int more) {
+        /** The lefts that a turn takes, NONE if the law forbids it. */
+        int lefts(int t, int stand, int turn) {
             if (turn < LEFT) {
                 return 0;
             }
@@ -1459,36 +1459,284 @@ public final class LeftTurns {
             if (allowing(t, (stand + TURNED[turn]) & 3, 1 << c) == 0) {
                 return NONE;
             }
-            return ((freeAt(t) | more) >> c & 1) != 0 ? 0 : turn - 1;
+            return (freeAt(t) >> c & 1) != 0 ? 0 : turn - 1;
         }
     }
 
-    /** The least that ways take to each stand, street by street, and the ways themselves. */
-    private static final class Routes {
-        private static final int FAR = 1 << 30;
+    /** Where one may be, street by street: sets of crossings by lefts taken and heading, all stands going at once. */
+    private static final class Spread {
+        private static final int ROWS = 4 * (MOST_WAY_LEFTS + 1);
 
         private final City city;
         private final Forecast forecast;
-        /** By streets gone and stand: the fewest lefts (or coins) of all ways there. */
-        private final int[] least = new int[(MOST_STREETS + 1) * STANDS];
-        /** By streets gone and stand: the fewest lefts from there to the end of the way. */
-        private final int[] need = new int[(MOST_STREETS + 1) * STANDS];
-        private final int[] turns = new int[MOST_STREETS];
-        private int length;
-        private int taken;
-        private int last;
+        private int[] sets = new int[ROWS];
+        /** All 0 but while a street is being gone. */
+        private int[] nexts = new int[ROWS];
+        /** The most lefts of any that is followed. */
+        private int top;
+        private int streets;
+        private final int[] reached = new int[MOST_WAY_LEFTS + 1];
 
-        Routes(City city, Forecast forecast) {
+        Spread(City city, Forecast forecast) {
             this.city = city;
             this.forecast = forecast;
         }
 
-        int length() {
-            return length;
+        private void begin(int stand) {
+            for (int row = 0; row < 4 * top + 4; row++) {
+                sets[row] = 0;
+            }
+            top = 0;
+            sets[stand & 3] = 1 << (stand >> 2);
         }
 
-        int taken() {
-            return taken;
+        private void change(int newTop) {
+            int[] gone = sets;
+            sets = nexts;
+            nexts = gone;
+            for (int row = 0; row < 4 * top + 4; row++) {
+                nexts[row] = 0;
+            }
+            top = newTop;
+        }
+
+        /** Who stands somewhere with more lefts than another one at the same time gets nowhere that he doesn't. */
+        private void thin() {
+            int highest = 0;
+            for (int h = 0; h < 4; h++) {
+                int seen = 0;
+                for (int lefts = 0; lefts <= top; lefts++) {
+                    int set = sets[4 * lefts + h] & ~seen;
+                    sets[4 * lefts + h] = set;
+                    if (set != 0) {
+                        seen |= set;
+                        highest = Math.max(highest, lefts);
+                    }
+                }
+            }
+            top = highest;
+        }
+
+        private int anyHeading(int lefts) {
+            int row = 4 * lefts;
+            return sets[row] | sets[row + 1] | sets[row + 2] | sets[row + 3];
+        }
+
+        private void goByRights(int row) {
+            for (int h = 0; h < 4; h++) {
+                int set = sets[row + h];
+                if (set != 0) {
+                    int right = (h + 1) & 3;
+                    nexts[row + h] |= city.moved(set, h);
+                    nexts[row + right] |= city.moved(set, right);
+                }
+            }
+        }
+
+        /** Lefts and backs of a set of corners, after which one comes into another row. */
+        private void goByLeft(int t, int turn, int row, int corners, int nextRow) {
+            for (int h = 0; h < 4; h++) {
+                int d = (h + TURNED[turn]) & 3;
+                int set = sets[row + h] & corners & city.streets[d];
+                if (set != 0) {
+                    nexts[nextRow + d] |= city.moved(forecast.allowing(t, d, set), d);
+                }
+            }
+        }
+
+        /** A street on, with so many lefts at most, where more corners are free than the city's. */
+        private void goOn(int t, int more, int most) {
+            int free = forecast.freeAt(t) | more;
+            for (int lefts = 0; lefts <= top && lefts <= most; lefts++) {
+                int row = 4 * lefts;
+                goByRights(row);
+                for (int turn = LEFT; turn < 4; turn++) {
+                    goByLeft(t, turn, row, free, row);
+                    if (lefts + turn - 1 <= most) {
+                        goByLeft(t, turn, row, ~free, row + 4 * (turn - 1));
+                    }
+                }
+            }
+            change(Math.min(top + 2, most));
+            thin();
+        }
+
+        /** The fewest lefts with which someone is at a crossing now; NONE if it takes more than the most. */
+        private int lowest(int c, int most) {
+            for (int lefts = 0; lefts <= top && lefts <= most; lefts++) {
+                if ((anyHeading(lefts) >> c & 1) != 0) {
+                    return lefts;
+                }
+            }
+            return NONE;
+        }
+
+        /** The fewest streets, up to n, to a crossing with k lefts at most; NONE if it can't be. */
+        int fewestStreets(int stand, int c, int k, int n, int more) {
+            begin(stand);
+            for (int i = 0; i <= n; i++) {
+                if (lowest(c, k) >= 0) {
+                    return i;
+                }
+                if (i < n) {
+                    goOn(i, more, k);
+                }
+            }
+            return NONE;
+        }
+
+        /** The fewest lefts within n streets to a crossing; NONE if it can't be. */
+        int fewestLefts(int stand, int time, int c, int n, int more) {
+            begin(stand);
+            int best = NONE;
+            int most = MOST_WAY_LEFTS;
+            for (int i = 0; i <= n && most >= 0; i++) {
+                int lefts = lowest(c, most);
+                if (lefts >= 0) {
+                    best = lefts;
+                    streets = i;
+                    most = lefts - 1;
+                }
+                if (i < n && most >= 0) {
+                    goOn(time + i, more, most);
+                }
+            }
+            return best;
+        }
+
+        /** In how many streets the fewest lefts were found to do. */
+        int streets() {
+            return streets;
+        }
+
+        private void survey(int stand, int most) {
+            Arrays.fill(reached, 0);
+            begin(stand);
+            for (int i = 0; i <= MOST_STREETS; i++) {
+                for (int lefts = 0; lefts <= top; lefts++) {
+                    reached[lefts] |= anyHeading(lefts);
+                }
+                if (i < MOST_STREETS) {
+                    goOn(i, 0, most);
+                }
+            }
+        }
+
+        int reachable(int stand, int k) {
+            survey(stand, k);
+            int set = 0;
+            for (int lefts = 0; lefts <= k; lefts++) {
+                set |= reached[lefts];
+            }
+            return set;
+        }
+
+        int leastForAll(int stand) {
+            survey(stand, MOST_WAY_LEFTS);
+            int set = 0;
+            int least = 0;
+            for (int lefts = 0; lefts <= MOST_WAY_LEFTS; lefts++) {
+                if ((reached[lefts] & ~set) != 0) {
+                    set |= reached[lefts];
+                    least = lefts;
+                }
+            }
+            return least;
+        }
+
+        int leftByRights(int stand) {
+            int goal = city.to(stand >> 2, (stand + 3) & 3);
+            if (goal < 0) {
+                return NONE;
+            }
+            begin(stand);
+            for (int i = 1; i <= MOST_STREETS; i++) {
+                goByRights(0);
+                change(0);
+                if ((anyHeading(0) >> goal & 1) != 0) {
+                    return i;
+                }
+            }
+            return NONE;
+        }
+
+        /** The least set of fewest corners, at most two, that brings one there without lefts; NONE if none does. */
+        int cornersToFree(int stand, int c, int n) {
+            int size = city.crossings();
+            if (fewestStreets(stand, c, 0, n, 0) >= 0) {
+                return 0;
+            }
+            if (fewestStreets(stand, c, 0, n, (1 << size) - 1) < 0) {
+                return NONE;
+            }
+            for (int a = 0; a < size; a++) {
+                if (fewestStreets(stand, c, 0, n, 1 << a) >= 0) {
+                    return 1 << a;
+                }
+            }
+            for (int b = 1; b < size; b++) {
+                for (int a = 0; a < b; a++) {
+                    if (fewestStreets(stand, c, 0, n, 1 << a | 1 << b) >= 0) {
+                        return 1 << a | 1 << b;
+                    }
+                }
+            }
+            return NONE;
+        }
+
+        /** Here the rows are by envelopes left behind, and nobody is thinned out: all of them must be left. */
+        int whereByEnvelopes(int stand, Tray envelopes, int n) {
+            int size = envelopes.size;
+            begin(stand);
+            for (int i = 0; i < n; i++) {
+                int free = forecast.freeAt(i);
+                for (int left = 0; left <= top; left++) {
+                    goByRights(4 * left);
+                    goByLeft(i, LEFT, 4 * left, free, 4 * left);
+                    goByLeft(i, LEFT + 1, 4 * left, free, 4 * left);
+                    goLeaving(i, left, free, envelopes);
+                }
+                change(Math.min(top + 2, size));
+            }
+            return top == size ? anyHeading(size) : 0;
+        }
+
+        /** Lefts and backs that leave the envelopes which come next. */
+        private void goLeaving(int t, int left, int free, Tray envelopes) {
+            int corner = envelopes.asSmall(left);
+            if (corner < 0) {
+                return;
+            }
+            int corners = 1 << corner & ~free;
+            goByLeft(t, LEFT, 4 * left, corners, 4 * left + 4);
+            if (envelopes.asSmall(left + 1) == corner) {
+                goByLeft(t, LEFT + 1, 4 * left, corners, 4 * left + 8);
+            }
+        }
+    }
+
+    /** The ways themselves, turn by turn. */
+    private static final class Routes {
+        private final City city;
+        private final Forecast forecast;
+        private final Spread spread;
+        /**
+         * From where one comes to the end in just j streets: by the lefts that it takes (0 to 2 j) and the heading, from
+         * place 4 j j on.
+         */
+        private final int[] back = new int[4 * (MOST_STREETS + 1) * (MOST_STREETS + 1)];
+        private final int[] turns = new int[MOST_STREETS];
+        private int length;
+        private int last;
+
+        Routes(City city, Forecast forecast, Spread spread) {
+            this.city = city;
+            this.forecast = forecast;
+            this.spread = spread;
+        }
+
+        int length() {
+            return length;
         }
 
         int last() {
@@ -1499,141 +1747,85 @@ public final class LeftTurns {
             return turns[i];
         }
 
-        int leastLefts(int stand, int c, int n, int more) {
-            survey(stand, 0, n, more, false);
-            return told(leastWithin(c, n));
-        }
-
-        int leastCoins(int stand, int c, int n) {
-            survey(stand, 0, n, 0, true);
-            return told(leastWithin(c, n));
-        }
-
-        private static int told(int amount) {
-            return amount < FAR ? amount : NONE;
-        }
-
-        int reachable(int stand, int k) {
-            survey(stand, 0, MOST_STREETS, 0, false);
-            int set = 0;
-            for (int c = 0; c < city.crossings(); c++) {
-                if (leastWithin(c, MOST_STREETS) <= k) {
-                    set |= 1 << c;
-                }
-            }
-            return set;
-        }
-
-        int leastForAll(int stand) {
-            survey(stand, 0, MOST_STREETS, 0, false);
-            int most = 0;
-            for (int c = 0; c < city.crossings(); c++) {
-                most = Math.max(most, told(leastWithin(c, MOST_STREETS)));
-            }
-            return most;
-        }
-
         /** The way with so many lefts at most, of the fewest streets, first by turns. */
         boolean shortest(int stand, int c, int k) {
-            survey(stand, 0, MOST_STREETS, 0, false);
-            if (!comes(c, k)) {
+            int streets = spread.fewestStreets(stand, c, k, MOST_STREETS, 0);
+            if (streets < 0) {
                 return false;
             }
-            lookBack(0, c);
-            follow(stand, 0, k);
+            trace(stand, 0, c, k, streets);
             return true;
         }
 
-        /** The way of the fewest lefts, then of the fewest streets, then first by turns. */
-        boolean leg(int stand, int time, int c) {
-            survey(stand, time, MOST_STREETS, 0, false);
-            int lefts = leastWithin(c, MOST_STREETS);
-            if (lefts >= FAR || !comes(c, lefts)) {
-                return false;
-            }
-            lookBack(time, c);
-            follow(stand, time, lefts);
-            return true;
+        /** Of the ways of just so many streets with k lefts at most, of which there is one, the first by turns. */
+        void trace(int stand, int time, int c, int k, int streets) {
+            length = streets;
+            lookBack(time, c, k);
+            follow(stand, time, k);
         }
 
-        private void survey(int stand, int time, int n, int more, boolean paid) {
-            Arrays.fill(least, 0, (n + 1) * STANDS, FAR);
-            least[stand] = 0;
-            int stands = 4 * city.crossings();
-            for (int i = 0; i < n; i++) {
-                int row = i * STANDS;
-                for (int s = 0; s < stands; s++) {
-                    if (least[row + s] >= FAR) {
-                        continue;
-                    }
-                    for (int turn = 0; turn < 4; turn++) {
-                        int next = city.standAfter(s, turn);
-                        int amount = next < 0 ? NONE : forecast.lefts(time + i, s, turn, more);
-                        if (amount < 0) {
-                            continue;
+        private void lookBack(int time, int c, int k) {
+            for (int d = 0; d < 4; d++) {
+                back[d] = 1 << c;
+            }
+            for (int j = 1; j <= length; j++) {
+                for (int row = 4 * j * j; row < 4 * (j + 1) * (j + 1); row++) {
+                    back[row] = 0;
+                }
+                int behind = 4 * (j - 1) * (j - 1);
+                for (int lefts = 0; lefts <= 2 * j - 2 && lefts <= k; lefts++) {
+                    for (int d = 0; d < 4; d++) {
+                        int from = city.movedBack(back[behind + 4 * lefts + d], d);
+                        if (from != 0) {
+                            comeFrom(time + length - j, from, d, 4 * j * j + 4 * lefts);
                         }
-                        if (paid && amount > 0) {
-                            int c = s >> 2;
-                            amount *= city.cost(c, city.folk.hours + time + i, city.folk.sold[c], next & 3);
-                        }
-                        int there = row + STANDS + next;
-                        least[there] = Math.min(least[there], least[row + s] + amount);
                     }
+                }
+                thin(j);
+            }
+        }
+
+        /** Adds the stands from which one goes into a direction at these corners, each turn from a heading of its own. */
+        private void comeFrom(int t, int from, int d, int row) {
+            back[row + d] |= from;
+            back[row + ((d + 3) & 3)] |= from;
+            int free = forecast.freeAt(t);
+            int allowed = forecast.allowing(t, d, from);
+            back[row + ((d + 1) & 3)] |= allowed & free;
+            back[row + ((d + 2) & 3)] |= allowed & free;
+            back[row + 4 + ((d + 1) & 3)] |= allowed & ~free;
+            back[row + 8 + ((d + 2) & 3)] |= allowed & ~free;
+        }
+
+        private void thin(int j) {
+            for (int h = 0; h < 4; h++) {
+                int seen = 0;
+                for (int row = 4 * j * j + h; row < 4 * (j + 1) * (j + 1); row += 4) {
+                    back[row] &= ~seen;
+                    seen |= back[row];
                 }
             }
         }
 
-        private int leastAt(int c, int i) {
-            int from = i * STANDS + 4 * c;
-            return Math.min(Math.min(least[from], least[from + 1]), Math.min(least[from + 2], least[from + 3]));
-        }
-
-        private int leastWithin(int c, int n) {
-            int lowest = FAR;
-            for (int i = 0; i <= n; i++) {
-                lowest = Math.min(lowest, leastAt(c, i));
-            }
-            return lowest;
-        }
-
-        /** In how many streets, by a survey of 60, one comes to a crossing with k lefts. */
-        private boolean comes(int c, int k) {
-            for (length = 0; length <= MOST_STREETS; length++) {
-                if (leastAt(c, length) <= k) {
+        private boolean comes(int j, int stand, int lefts) {
+            for (int l = 0; l <= 2 * j && l <= lefts; l++) {
+                if ((back[4 * (j * j + l) + (stand & 3)] >> (stand >> 2) & 1) != 0) {
                     return true;
                 }
             }
             return false;
         }
 
-        private void lookBack(int time, int c) {
-            Arrays.fill(need, 0, (length + 1) * STANDS, FAR);
-            Arrays.fill(need, length * STANDS + 4 * c, length * STANDS + 4 * c + 4, 0);
-            int stands = 4 * city.crossings();
-            for (int i = length - 1; i >= 0; i--) {
-                int row = i * STANDS;
-                for (int s = 0; s < stands; s++) {
-                    for (int turn = 0; turn < 4 && least[row + s] < FAR; turn++) {
-                        int next = city.standAfter(s, turn);
-                        int amount = next < 0 ? NONE : forecast.lefts(time + i, s, turn, 0);
-                        if (amount >= 0) {
-                            need[row + s] = Math.min(need[row + s], amount + need[row + STANDS + next]);
-                        }
-                    }
-                }
-            }
-        }
-
         private void follow(int stand, int time, int k) {
-            taken = 0;
+            int left = k;
             last = stand;
             for (int i = 0; i < length; i++) {
                 for (int turn = 0; turn < 4; turn++) {
                     int next = city.standAfter(last, turn);
-                    int amount = next < 0 ? NONE : forecast.lefts(time + i, last, turn, 0);
-                    if (amount >= 0 && taken + amount + need[(i + 1) * STANDS + next] <= k) {
+                    int amount = next < 0 ? NONE : forecast.lefts(time + i, last, turn);
+                    if (amount >= 0 && comes(length - i - 1, next, left - amount)) {
                         turns[i] = turn;
-                        taken += amount;
+                        left -= amount;
                         last = next;
                         break;
                     }
@@ -1644,6 +1836,7 @@ public final class LeftTurns {
 
     /** The best order of errands. */
     private static final class Rounds {
+        private final Spread spread;
         private final Routes routes;
         private final int[] stops = new int[MOST_STOPS];
         private final int[] order = new int[MOST_STOPS];
@@ -1654,7 +1847,8 @@ public final class LeftTurns {
         private int bestLefts;
         private int bestStreets;
 
-        Rounds(Routes routes) {
+        Rounds(Spread spread, Routes routes) {
+            this.spread = spread;
             this.routes = routes;
         }
 
@@ -1674,16 +1868,17 @@ public final class LeftTurns {
                 return;
             }
             for (int i = 0; i < size; i++) {
-                if ((done >> i & 1) != 0 || !routes.leg(stand, streets, stops[i])) {
+                if ((done >> i & 1) != 0) {
                     continue;
                 }
-                int sum = lefts + routes.taken();
-                if (any && sum > bestLefts) {
+                int more = spread.fewestLefts(stand, streets, stops[i], MOST_STREETS, 0);
+                if (more < 0 || any && lefts + more > bestLefts) {
                     continue;
                 }
+                routes.trace(stand, streets, stops[i], more, spread.streets());
                 order[depth] = i;
                 done |= 1 << i;
-                tour(depth + 1, routes.last(), sum, streets + routes.length());
+                tour(depth + 1, routes.last(), lefts + more, streets + routes.length());
                 done &= ~(1 << i);
             }
         }
@@ -1710,196 +1905,101 @@ public final class LeftTurns {
         }
     }
 
-    /** How many ways there are. */
+    /** What is summed up along all ways: how many there are, and the coins they cost. */
     private static final class Tally {
         static final int STREETS = 20;
         static final int LEFTS = 40;
         private static final int ROW = LEFTS + 1;
+        private static final int FAR = 1 << 30;
 
         private final City city;
         private final Forecast forecast;
-        /** By street (even, odd), stand and lefts taken. */
-        private final long[][] paths = new long[2][STANDS * ROW];
+        /** Both by street (even, odd) and stand; ways also by lefts taken. */
+        private final long[][] ways = new long[2][STANDS * ROW];
+        /** The most lefts of a way to each stand, NONE where there is none and its row of ways is stale. */
+        private final int[][] most = new int[2][STANDS];
+        private final int[][] coins = new int[2][STANDS];
 
         Tally(City city, Forecast forecast) {
             this.city = city;
             this.forecast = forecast;
         }
 
-        long paths(int stand, int c, int n, int k) {
-            Arrays.fill(paths[0], 0);
-            paths[0][stand * ROW] = 1;
+        long waysOfJust(int stand, int c, int n, int k) {
+            Arrays.fill(most[0], NONE);
+            most[0][stand] = 0;
+            ways[0][stand * ROW] = 1;
             for (int i = 0; i < n; i++) {
-                goOn(i, k);
+                addWays(i, k);
             }
             long sum = 0;
             for (int s = 4 * c; s < 4 * c + 4; s++) {
-                for (int lefts = 0; lefts <= k; lefts++) {
-                    sum += paths[n & 1][s * ROW + lefts];
+                for (int lefts = 0; lefts <= most[n & 1][s]; lefts++) {
+                    sum += ways[n & 1][s * ROW + lefts];
                 }
             }
             return sum;
         }
 
-        private void goOn(int i, int k) {
-            Arrays.fill(paths[i + 1 & 1], 0);
+        private void addWays(int i, int k) {
+            Arrays.fill(most[(i + 1) & 1], NONE);
             int stands = 4 * city.crossings();
             for (int s = 0; s < stands; s++) {
-                for (int turn = 0; turn < 4; turn++) {
+                for (int turn = 0; turn < 4 && most[i & 1][s] >= 0; turn++) {
                     int next = city.standAfter(s, turn);
-                    int amount = next < 0 ? NONE : forecast.lefts(i, s, turn, 0);
-                    if (amount >= 0) {
-                        add(i, s, next, amount, k);
+                    int amount = next < 0 ? NONE : forecast.lefts(i, s, turn);
+                    if (amount >= 0 && amount <= k) {
+                        addWaysBy(i, s, next, amount, k);
                     }
                 }
             }
         }
 
-        private void add(int i, int from, int next, int amount, int k) {
-            long[] old = paths[i & 1];
-            long[] young = paths[i + 1 & 1];
-            for (int lefts = 0; lefts + amount <= k; lefts++) {
-                young[next * ROW + lefts + amount] += old[from * ROW + lefts];
+        private void addWaysBy(int i, int from, int next, int amount, int k) {
+            long[] old = ways[i & 1];
+            long[] young = ways[(i + 1) & 1];
+            int[] high = most[(i + 1) & 1];
+            int top = Math.min(k, most[i & 1][from] + amount);
+            for (int lefts = high[next] + 1; lefts <= top; lefts++) {
+                young[next * ROW + lefts] = 0;
             }
-        }
-    }
-
-    /** Where one may be, as sets of crossings by heading, all stands going at once. */
-    private static final class Spread {
-        private static final int ROWS = 4 * (MOST_ENVELOPES + 1);
-
-        private final City city;
-        private final Forecast forecast;
-        /** By envelopes left behind and heading. */
-        private int[] sets = new int[ROWS];
-        private int[] nexts = new int[ROWS];
-
-        Spread(City city, Forecast forecast) {
-            this.city = city;
-            this.forecast = forecast;
-        }
-
-        private void begin(int stand, int rows) {
-            Arrays.fill(sets, 0, rows, 0);
-            sets[stand & 3] = 1 << (stand >> 2);
-        }
-
-        private void change(int rows) {
-            int[] gone = sets;
-            sets = nexts;
-            nexts = gone;
-            Arrays.fill(nexts, 0, rows, 0);
-        }
-
-        private int anyHeading(int row) {
-            return sets[row] | sets[row + 1] | sets[row + 2] | sets[row + 3];
-        }
-
-        private void goByRights(int row) {
-            for (int h = 0; h < 4; h++) {
-                int right = (h + 1) & 3;
-                nexts[row + h] |= city.moved(sets[row + h], h);
-                nexts[row + right] |= city.moved(sets[row + h], right);
+            high[next] = Math.max(high[next], top);
+            for (int lefts = amount; lefts <= top; lefts++) {
+                young[next * ROW + lefts] += old[from * ROW + lefts - amount];
             }
         }
 
-        int leftByRights(int stand) {
-            int goal = city.to(stand >> 2, (stand + 3) & 3);
-            if (goal < 0) {
-                return NONE;
-            }
-            begin(stand, 4);
-            Arrays.fill(nexts, 0, 4, 0);
-            for (int i = 1; i <= MOST_STREETS; i++) {
-                goByRights(0);
-                change(4);
-                if ((anyHeading(0) >> goal & 1) != 0) {
-                    return i;
-                }
-            }
-            return NONE;
-        }
-
-        /** The least set of fewest corners, at most two, that brings one there without lefts; NONE if none does. */
-        int cornersToFree(int stand, int c, int n) {
-            int size = city.crossings();
-            if (comesFree(stand, c, n, 0)) {
-                return 0;
-            }
-            if (!comesFree(stand, c, n, (1 << size) - 1)) {
-                return NONE;
-            }
-            for (int a = 0; a < size; a++) {
-                if (comesFree(stand, c, n, 1 << a)) {
-                    return 1 << a;
-                }
-            }
-            for (int b = 1; b < size; b++) {
-                for (int a = 0; a < b; a++) {
-                    if (comesFree(stand, c, n, 1 << a | 1 << b)) {
-                        return 1 << a | 1 << b;
-                    }
-                }
-            }
-            return NONE;
-        }
-
-        private boolean comesFree(int stand, int c, int n, int more) {
-            begin(stand, 4);
-            Arrays.fill(nexts, 0, 4, 0);
-            for (int i = 0; i <= n; i++) {
-                if ((anyHeading(0) >> c & 1) != 0) {
-                    return true;
+        int leastCoins(int stand, int c, int n) {
+            Arrays.fill(coins[0], FAR);
+            coins[0][stand] = 0;
+            int best = FAR;
+            for (int i = 0; i <= n && best > 0; i++) {
+                for (int s = 4 * c; s < 4 * c + 4; s++) {
+                    best = Math.min(best, coins[i & 1][s]);
                 }
                 if (i < n) {
-                    goByRights(0);
-                    goFree(i, 0, forecast.freeAt(i) | more);
-                    change(4);
+                    addCoins(i, best);
                 }
             }
-            return false;
+            return best < FAR ? best : NONE;
         }
 
-        /** Lefts and backs at free corners. */
-        private void goFree(int t, int row, int free) {
-            for (int h = 0; h < 4; h++) {
-                int set = sets[row + h] & free;
-                for (int turn = LEFT; turn < 4 && set != 0; turn++) {
-                    int d = (h + TURNED[turn]) & 3;
-                    nexts[row + d] |= city.moved(forecast.allowing(t, d, set & city.streets[d]), d);
-                }
-            }
-        }
-
-        int whereByEnvelopes(int stand, Tray envelopes, int n) {
-            int rows = 4 * (envelopes.size + 1);
-            begin(stand, rows);
-            Arrays.fill(nexts, 0, rows, 0);
-            for (int i = 0; i < n; i++) {
-                int free = forecast.freeAt(i);
-                for (int left = 0; left <= envelopes.size; left++) {
-                    goByRights(4 * left);
-                    goFree(i, 4 * left, free);
-                    goLeaving(i, left, free, envelopes);
-                }
-                change(rows);
-            }
-            return anyHeading(4 * envelopes.size);
-        }
-
-        /** Lefts and backs that leave the envelopes which come next. */
-        private void goLeaving(int t, int left, int free, Tray envelopes) {
-            for (int turn = LEFT; turn < 4; turn++) {
-                int behind = left + turn - 1;
-                if (behind > envelopes.size || envelopes.asSmall(left) != envelopes.asSmall(behind - 1)) {
-                    continue;
-                }
-                int corner = 1 << envelopes.asSmall(left) & ~free;
-                for (int h = 0; h < 4; h++) {
-                    int d = (h + TURNED[turn]) & 3;
-                    int set = sets[4 * left + h] & corner & city.streets[d];
-                    if (set != 0) {
-                        nexts[4 * behind + d] |= city.moved(forecast.allowing(t, d, set), d);
+        /** Who has paid as much as a way that is known needn't be followed. */
+        private void addCoins(int i, int best) {
+            int[] old = coins[i & 1];
+            int[] young = coins[(i + 1) & 1];
+            Arrays.fill(young, FAR);
+            int stands = 4 * city.crossings();
+            for (int s = 0; s < stands; s++) {
+                for (int turn = 0; turn < 4 && old[s] < best; turn++) {
+                    int next = city.standAfter(s, turn);
+                    int amount = next < 0 ? NONE : forecast.lefts(i, s, turn);
+                    if (amount > 0) {
+                        int c = s >> 2;
+                        amount *= city.cost(c, city.folk.hours + i, city.folk.sold[c], next & 3);
+                    }
+                    if (amount >= 0) {
+                        young[next] = Math.min(young[next], old[s] + amount);
                     }
                 }
             }
@@ -1916,6 +2016,8 @@ public final class LeftTurns {
         /** The same for the goings at hand, with the watch to go. */
         private final int[] inTurn = new int[ROW];
         private int known;
+        /** Whether more goings than are known change nothing. */
+        private boolean settled;
 
         Hunt(City city) {
             this.city = city;
@@ -1923,14 +2025,25 @@ public final class LeftTurns {
 
         void forget() {
             known = 0;
+            settled = false;
         }
 
         int catching(int thief, int watchHeads, int goings) {
-            while (known <= goings && known <= MOST_GOINGS) {
+            while (known <= goings && known <= MOST_GOINGS && !settled) {
                 workOut(known);
+                settled = known > 0 && isLikeTheLast(known * ROW);
                 known++;
             }
-            return catching[goings * ROW + 4 * thief + watchHeads];
+            return catching[Math.min(goings, known - 1) * ROW + 4 * thief + watchHeads];
+        }
+
+        private boolean isLikeTheLast(int row) {
+            for (int i = row; i < row + 16 * city.crossings(); i++) {
+                if (catching[i] != catching[i - ROW]) {
+                    return false;
+                }
+            }
+            return true;
         }
 
         private void workOut(int goings) {
