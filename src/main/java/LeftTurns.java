@@ -1721,10 +1721,10 @@ public final class LeftTurns {
         private final Forecast forecast;
         private final Spread spread;
         /**
-         * From where one comes to the end in just j streets: by the lefts that it takes (0 to 2 j) and the heading, from
-         * place 4 j j on.
+         * From where one comes to the end in just j streets (fewer than the way has): by the lefts that it takes,
+         * 0 to 2 j, and the heading, from place 4 j j on.
          */
-        private final int[] back = new int[4 * (MOST_STREETS + 1) * (MOST_STREETS + 1)];
+        private final int[] back = new int[4 * MOST_STREETS * MOST_STREETS];
         private final int[] turns = new int[MOST_STREETS];
         private int length;
         private int last;
@@ -1768,7 +1768,7 @@ public final class LeftTurns {
             for (int d = 0; d < 4; d++) {
                 back[d] = 1 << c;
             }
-            for (int j = 1; j <= length; j++) {
+            for (int j = 1; j < length; j++) {
                 for (int row = 4 * j * j; row < 4 * (j + 1) * (j + 1); row++) {
                     back[row] = 0;
                 }
@@ -1785,7 +1785,7 @@ public final class LeftTurns {
             }
         }
 
-        /** Adds the stands from which one goes into a direction at these corners, each turn from a heading of its own. */
+        /** Adds the stands from which one goes into a direction here, each turn from a heading of its own. */
         private void comeFrom(int t, int from, int d, int row) {
             back[row + d] |= from;
             back[row + ((d + 3) & 3)] |= from;

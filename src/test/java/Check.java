@@ -30,6 +30,16 @@ final class Check {
         }
     }
 
+    /** A model of the city of a text. */
+    static Model model(String text) {
+        Model model = new Model();
+        for (int i = 0; i < text.length(); i += 20) {
+            model.feed(four(text, i), four(text, i + 4), four(text, i + 8), four(text, i + 12), four(text, i + 16));
+        }
+        model.city(text.length());
+        return model;
+    }
+
     private static int four(String text, int from) {
         int value = 0;
         for (int i = from; i < from + 4; i++) {

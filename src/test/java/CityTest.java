@@ -81,7 +81,7 @@ public final class CityTest {
         due("high", x.count(1), 4);
         due("the later hour counts", x.count(3), 7);
         due("told twice is as told once", x.count(5), 1);
-        due("the later price counts", x.price(2, 0, 0), 2);
+        due("the later price counts", x.price(1, 0, 0), 1);
         due("tokens without blanks", Check.read(x, "city2 3;person1 1west lefts4coins5;"), 2);
         due("its lefts", x.person(0, 2), 4);
         due("its coins", x.person(0, 3), 5);

@@ -241,6 +241,8 @@ public final class DeedsTest {
         due("nobody", x.hand(-1, 0, 1), -2);
         due("nobody", x.hand(0, -1, 1), -2);
         due("all", x.hand(1, 0, 94), 99);
+        LeftTurns y = Check.city("city 2 2; person 0 0 south lefts 99; person 0 0 east;");
+        due("99", y.hand(0, 1, 99), 99);
         due("both can be undone", x.undo(2), 0);
         due("the giver's", x.person(0, 2), 9);
         due("the other's", x.person(1, 2), 95);
@@ -344,6 +346,15 @@ public final class DeedsTest {
         due("the tray has the way still", x.judge(0, 0), 3);
     }
 
+    /** A seed whose first draw lets one buy. */
+    private static int buyingSeed() {
+        int seed = 0;
+        while ((1103515245 * seed + 12345 >>> 16) % 4 != 2) {
+            seed++;
+        }
+        return seed;
+    }
+
     private static void weeks() {
         LeftTurns x = new LeftTurns();
         due("no people", x.week(1, 60), -5);
@@ -387,6 +398,11 @@ public final class DeedsTest {
         }
         due("hours after a week", x.count(3), y.count(3));
         due("sold after a week", x.count(4), y.count(4));
+        LeftTurns full = Check.city("city 2 2; person 0 0 north lefts 99; price: 0;");
+        full.week(1, 60);
+        due("nobody buys a hundredth", full.person(0, 2) <= 99 ? 1 : 0, 1);
+        due("nobody buys where one has 99", Check.city("city 2 2; person 0 0 north lefts 99; price: 0;").week(buyingSeed(), 1), 0);
+        due("one buys who has 98", Check.city("city 2 2; person 0 0 north lefts 98; price: 0;").week(buyingSeed(), 1), 1);
         // Seed 0: the first draw is 12345 >>> 16 = 0, the second 3554416254 >>> 16 = 54236, the third 2802067423 >>> 16 = 42756.
         LeftTurns z = Check.city("city 3 3; person 1 1 north;");
         due("person 0 goes by turn 0", z.week(0, 1), 1);

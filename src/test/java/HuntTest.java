@@ -9,6 +9,7 @@ public final class HuntTest {
         foundMany();
         wrongFound();
         chases();
+        chasesToTheEnd();
         posts();
         wrongChases();
         CHECK.end();
@@ -106,6 +107,22 @@ public final class HuntTest {
         due("without", x.chase(2, 2, 0, 2), 1);
         x.restore(0);
         due("with it again", x.chase(2, 2, 0, 2), -1);
+    }
+
+    /** In this city some chases take all of 30 goings. */
+    private static void chasesToTheEnd() {
+        String text = "city 4 5; wall 0 3 1;";
+        LeftTurns x = Check.city(text);
+        Model model = Check.model(text);
+        int longest = 0;
+        for (int i = 0; i < 80; i++) {
+            for (int j = i % 7; j < 80; j += 7) {
+                int goings = x.chase(i / 4, i % 4, j / 4, j % 4);
+                due("chase " + i + " " + j, goings, model.chase(i / 4, i % 4, j / 4, j % 4));
+                longest = Math.max(longest, goings);
+            }
+        }
+        due("the longest", longest, 30);
     }
 
     private static void posts() {

@@ -730,37 +730,42 @@ final class Model {
         layer.computeIfAbsent(10 * c + head, s -> new TreeMap<>()).put(0, "");
         layers.add(layer);
         for (int i = 0; i < n; i++) {
-            Map<Integer, TreeMap<Integer, String>> following = new HashMap<>();
-            for (Map.Entry<Integer, TreeMap<Integer, String>> stand : layer.entrySet()) {
-                int at = stand.getKey() / 10;
-                int heads = stand.getKey() % 10;
-                for (int turn = 0; turn < 4; turn++) {
-                    int takes = takes(at, heads, turn, world.hours + since + i, more);
-                    if (takes < 0) {
-                        continue;
-                    }
-                    int d = turned(heads, turn);
-                    TreeMap<Integer, String> there = following.computeIfAbsent(10 * world.to(at, d) + d, s -> new TreeMap<>());
-                    for (Map.Entry<Integer, String> w : stand.getValue().entrySet()) {
-                        there.merge(w.getKey() + takes, w.getValue() + turn, (a, b) -> a.compareTo(b) <= 0 ? a : b);
-                    }
-                }
-            }
-            for (TreeMap<Integer, String> there : following.values()) {
-                String best = null;
-                for (Integer lefts : new ArrayList<>(there.keySet())) {
-                    String w = there.get(lefts);
-                    if (best != null && best.compareTo(w) <= 0) {
-                        there.remove(lefts);
-                    } else {
-                        best = w;
-                    }
-                }
-            }
-            layers.add(following);
-            layer = following;
+            layer = following(layer, world.hours + since + i, more);
+            layers.add(layer);
         }
         return layers;
+    }
+
+    private Map<Integer, TreeMap<Integer, String>> following(Map<Integer, TreeMap<Integer, String>> layer, int time,
+            Set<Integer> more) {
+        Map<Integer, TreeMap<Integer, String>> following = new HashMap<>();
+        for (Map.Entry<Integer, TreeMap<Integer, String>> stand : layer.entrySet()) {
+            int at = stand.getKey() / 10;
+            int heads = stand.getKey() % 10;
+            for (int turn = 0; turn < 4; turn++) {
+                int takes = takes(at, heads, turn, time, more);
+                if (takes < 0) {
+                    continue;
+                }
+                int d = turned(heads, turn);
+                TreeMap<Integer, String> there = following.computeIfAbsent(10 * world.to(at, d) + d, s -> new TreeMap<>());
+                for (Map.Entry<Integer, String> w : stand.getValue().entrySet()) {
+                    there.merge(w.getKey() + takes, w.getValue() + turn, (a, b) -> a.compareTo(b) <= 0 ? a : b);
+                }
+            }
+        }
+        for (TreeMap<Integer, String> there : following.values()) {
+            String best = null;
+            for (Integer lefts : new ArrayList<>(there.keySet())) {
+                String w = there.get(lefts);
+                if (best != null && best.compareTo(w) <= 0) {
+                    there.remove(lefts);
+                } else {
+                    best = w;
+                }
+            }
+        }
+        return following;
     }
 
     private String first(Map<Integer, TreeMap<Integer, String>> layer, int c, int k) {
@@ -787,12 +792,15 @@ final class Model {
         return least;
     }
 
-    private String path(int p, int c, int k) {
-        for (Map<Integer, TreeMap<Integer, String>> layer : spread(world.at(p), world.people.get(p).head, 0, 60, Set.of())) {
+    /** The turns of a way, null if there is none. */
+    String path(int p, int c, int k) {
+        Map<Integer, TreeMap<Integer, String>> layer = spread(world.at(p), world.people.get(p).head, 0, 0, Set.of()).get(0);
+        for (int i = 0; i <= 60; i++) {
             String w = first(layer, c, k);
             if (w != null) {
                 return w;
             }
+            layer = following(layer, world.hours + i, Set.of());
         }
         return null;
     }

@@ -84,17 +84,28 @@ public final class ModelTest {
         int high = 2 + random.nextInt(most - 1);
         text.append("city ").append(wide).append(' ').append(high).append("; ");
         int lines = random.nextInt(14);
+        int people = random.nextInt(20) == 0 ? 6 : 1 + random.nextInt(5);
+        int kinds = random.nextBoolean() ? 5 : 12;
         for (int i = 0; i < lines; i++) {
             int px = random.nextInt(wide);
             int py = random.nextInt(high);
-            switch (random.nextInt(5)) {
+            switch (random.nextInt(kinds)) {
+                case 3, 4 -> {
+                    if (people > 1) {
+                        person(text, px, py);
+                        people--;
+                    }
+                }
                 case 0 -> text.append("free ").append(px).append(' ').append(py).append(";");
-                case 1, 2 -> text.append("wall ").append(px).append(' ').append(py).append(' ').append(random.nextInt(4)).append("; ");
-                default -> person(text, px, py);
+                default -> text.append("wall ").append(px).append(' ').append(py).append(' ').append(random.nextInt(4)).append("; ");
             }
         }
-        if (random.nextInt(3) > 0) {
+        person(text, random.nextInt(wide), random.nextInt(high));
+        for (int i = random.nextInt(3); i > 0; i--) {
             text.append("may: ").append(truth(3)).append("; ");
+        }
+        if (random.nextInt(4) == 0) {
+            text.append("price: ").append(sum(2)).append("; ");
         }
         if (random.nextInt(3) == 0) {
             text.append("hour ").append(random.nextInt(1000)).append(";");
@@ -182,6 +193,10 @@ public final class ModelTest {
     }
 
     private void deed() {
+        boolean asking = random.nextInt(3) == 0;
+        if (asking) {
+            askSomeWay();
+        }
         int p = p();
         switch (random.nextInt(13)) {
             case 0, 1, 2, 3 -> {
@@ -223,6 +238,9 @@ public final class ModelTest {
                 }
                 due("walk(" + tray + ")", x.walk(tray), model.walk(tray));
             }
+        }
+        if (asking) {
+            askSomeWay();
         }
         for (int what = 0; what < 10; what++) {
             due("count(" + what + ")", x.count(what), model.count(what));
@@ -271,6 +289,9 @@ public final class ModelTest {
             case 1, 2 -> {
                 int i = random.nextInt(10) == 0 ? -1 : random.nextInt(9);
                 due("turn" + told + k + ", " + i + ")", x.turn(p, c, k, i), model.turn(p, c, k, i));
+                if (model.way(p, c, k) >= 0) {
+                    wholeWay(p, c, k);
+                }
             }
             case 3 -> due("fewest" + told + n + ")", x.fewest(p, c, n), model.fewest(p, c, n));
             case 4 -> due("cheapest" + told + n + ")", x.cheapest(p, c, n), model.cheapest(p, c, n));
@@ -287,6 +308,25 @@ public final class ModelTest {
             }
             default -> due("byRights(" + c + ", " + k + ")", x.byRights(c, k), model.byRights(c, k));
         }
+    }
+
+    private void wholeWay(int p, int c, int k) {
+        String turns = model.path(p, c, k);
+        for (int i = 0; i < turns.length(); i++) {
+            due("turn(" + p + ", " + c + ", " + k + ", " + i + ") of " + turns, x.turn(p, c, k, i), turns.charAt(i) - '0');
+        }
+    }
+
+    /** The same question ahead of a deed and behind it: nothing that was worked out may outlive the deed. */
+    private void askSomeWay() {
+        int p = random.nextInt(Math.max(1, x.count(2)));
+        int c = c();
+        int n = random.nextInt(7);
+        String told = "(" + p + ", " + c + ", " + n + ")";
+        due("fewest" + told, x.fewest(p, c, n), model.fewest(p, c, n));
+        due("cheapest" + told, x.cheapest(p, c, n), model.cheapest(p, c, n));
+        due("ways" + told, x.ways(p, c, n, 4), model.ways(p, c, n, 4));
+        due("way" + told, x.way(p, c, 2), model.way(p, c, 2));
     }
 
     private void askMore() {

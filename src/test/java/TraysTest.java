@@ -80,6 +80,8 @@ public final class TraysTest {
         x.numbers(0, 0, 6);
         due("the whole of it", x.lists(0, 1, 3, 0), 6);
         due("can be gone", x.judge(0, 0), -1);
+        due("with as many lefts as can be", x.lists(0, 1, 1, 120), 2);
+        due("the whole of it again", x.lists(0, 1, 3, 0), 6);
         due("leads there", x.judge(0, 2), 3);
         x.numbers(0, 0, 4);
         due("as many as it has places", x.lists(0, 1, 3, 0), 4);

@@ -9,6 +9,8 @@ public final class WaysTest {
         ways();
         waysByHour();
         waysAreBounded();
+        backAndForth();
+        afterDeeds();
         wrongWays();
         fewest();
         cheapest();
@@ -81,6 +83,93 @@ public final class WaysTest {
         due("an hour later there is one of 60", y.fewest(0, 0, 60), 1);
         due("its streets", y.way(0, 0, 1), 60);
         due("of 59 there is none", y.fewest(0, 0, 59), -1);
+        due("with it 0 is reached", y.reach(0, 1), 511);
+        due("without it is not", y.reach(0, 0), 510);
+        due("enough for all", y.enough(0), 1);
+        Model model = Check.model("city 3 3; person 1 1 north; wall 0 0 2; may: hour = 12 and day = 2; hour 1;");
+        String turns = model.path(0, 0, 1);
+        due("its streets by the model", turns.length(), 60);
+        for (int i = 0; i < 60; i++) {
+            due("turn " + i + " of " + turns, y.turn(0, 0, 1, i), turns.charAt(i) - '0');
+        }
+        due("an hour later it is too late by one", y.hours(59), 60);
+        due("turn", y.turn(0, 0, 1, 0), model.hours(59) > 0 ? model.turn(0, 0, 1, 0) : 0);
+    }
+
+    /** Two crossings in a row: there is nothing but back, 120 lefts in 60 streets. */
+    private static void backAndForth() {
+        LeftTurns x = Check.city("city 2 2; person 0 0 west; wall 0 0 2; wall 1 0 2;");
+        due("nobody gets to 3", x.way(0, 3, 120), -1);
+        due("fewest", x.fewest(0, 3, 60), -1);
+        due("cheapest", x.cheapest(0, 3, 60), -1);
+        due("reach", x.reach(0, 120), 3);
+        due("with one", x.reach(0, 1), 1);
+        due("enough", x.enough(0), 2);
+        due("twenty", x.ways(0, 0, 20, 40), 1);
+        due("twenty with fewer", x.ways(0, 0, 20, 39), 0);
+        due("nineteen", x.ways(0, 1, 19, 38), 1);
+        way(x, 1, 2, 3);
+        LeftTurns y = Check.city("city 3 2; person 1 0 east; wall 2 0 2; wall 1 0 2;");
+        way(y, 0, 2, 3);
+        LeftTurns z = Check.city("city 3 2; person 1 0 east; wall 2 0 2; wall 1 0 2; may: not x = 1;");
+        way(z, 0, 2, 0, 3, 0);
+        due("with fewer", z.way(0, 0, 1), -1);
+        way(z, 3, 3, 0, 3, 0, 2);
+        way(z, 3, 120, 0, 3, 0, 2);
+    }
+
+    /** What was worked out ahead of a deed is of no use behind it. Here one may turn left in the hour 1 alone. */
+    private static void afterDeeds() {
+        int anHour = 0;
+        while ((1103515245 * anHour + 12345 >>> 16) % 4 != 3) {
+            anHour++;
+        }
+        for (int deed = 0; deed < 6; deed++) {
+            LeftTurns x = Check.city(NARROW + " person 0 1 north; may: hour = 1;");
+            x.image(0);
+            Check.tray(x, 0, 1);
+            Check.tray(x, 1, 1, 0);
+            mayTurn(x, false);
+            switch (deed) {
+                case 0 -> due("go", x.go(1, 0), 0);
+                case 1 -> due("walk", x.walk(1), 1);
+                case 2 -> due("week", x.week(anHour, 1), 1);
+                case 3 -> due("hours", x.hours(1), 1);
+                case 4 -> due("city", Check.read(x, NARROW + " may: hour = 1; hour 1;"), 4);
+                default -> {
+                    x.hours(1);
+                    x.image(1);
+                    x.undo(1);
+                    mayTurn(x, false);
+                    due("restore", x.restore(1), 0);
+                }
+            }
+            mayTurn(x, true);
+            if (deed < 4) {
+                due("undo", x.undo(1), 0);
+            } else {
+                due("restore", x.restore(0), 0);
+            }
+            mayTurn(x, false);
+        }
+        LeftTurns y = Check.city(NARROW + " person 1 0 west coins 9; may: sold = 1;");
+        Check.tray(y, 0, 1);
+        mayTurn(y, false);
+        y.buy(1, 1);
+        mayTurn(y, true);
+        y.fog(1, 1);
+        due("free in fog", y.fewest(0, 3, 1), 0);
+        due("no envelope in fog", y.found(0, 0, 1), 0);
+    }
+
+    private static void mayTurn(LeftTurns x, boolean may) {
+        due("fewest", x.fewest(0, 3, 1), may ? 1 : -1);
+        due("ways", x.ways(0, 3, 1, 1), may ? 1 : 0);
+        due("cheapest", x.cheapest(0, 3, 1), may ? 1 : -1);
+        due("found", x.found(0, 0, 1), may ? 8 : 0);
+        due("makeFree", x.makeFree(0, 3, 1, 1), may ? 2 : -1);
+        due("bestCorner", x.bestCorner(0, 3, 1), may ? 1 : -1);
+        due("turn", x.turn(0, 3, 1, 0), may ? 2 : x.way(0, 3, 1) < 0 ? -1 : 0);
     }
 
     private static void wrongWays() {
