@@ -351,7 +351,7 @@ public final class LeftTurns {
         if (!routes.shortest(now.folk.stand(p), c, k)) {
             return NONE;
         }
-        return i < routes.length() ? routes.turnAt(i) : NONE;
+        return routes.turnAt(i);
     }
 
     public int fewest(int p, int c, int n) {
@@ -750,9 +750,12 @@ public final class LeftTurns {
         private final int[] stack = new int[64];
         private final int[] names = new int[6];
         private int size;
+        /** Which names stand in it, as bits. */
+        private int named;
 
         void clear() {
             size = 0;
+            named = 0;
         }
 
         boolean isTold() {
@@ -764,10 +767,28 @@ public final class LeftTurns {
                 code[size] = part;
                 size++;
             }
+            if (part >= FIRST_NAME && part <= HEAD) {
+                named |= 1 << part - FIRST_NAME;
+            }
+        }
+
+        private boolean asks(int name) {
+            return (named >> name - FIRST_NAME & 1) != 0;
+        }
+
+        /** The first hour from now for which it says just what it says in t hours. */
+        int firstLike(int t) {
+            return asks(DAYS) ? t : asks(HOUR) ? t % DAY : 0;
+        }
+
+        /** The first direction for which it says just what it says of this one. */
+        int firstHeadLike(int head) {
+            return asks(HEAD) ? head : 0;
         }
 
         void copy(Law other) {
             size = other.size;
+            named = other.named;
             System.arraycopy(other.code, 0, code, 0, size);
         }
 
@@ -1403,7 +1424,7 @@ public final class LeftTurns {
 
         private final City city;
         private final int[] free = new int[HOURS];
-        /** By the hour and the direction one goes in: of which crossings it is known, and which allow it. */
+        /** By the first hour and direction that are like it: of which crossings it is known, and which allow it. */
         private final int[] asked = new int[4 * HOURS];
         private final int[] allowed = new int[4 * HOURS];
         /** So many hours have been begun since all was forgotten. */
@@ -1434,15 +1455,16 @@ public final class LeftTurns {
 
         /** Those of a set at which the law lets one turn left or back into a direction. */
         int allowing(int t, int d, int set) {
-            if (!city.mayLaw.isTold() || city.wide <= 0) {
+            Law law = city.mayLaw;
+            if (!law.isTold() || city.wide <= 0) {
                 return set;
             }
             beginUpTo(t);
-            int row = 4 * t + d;
+            int row = 4 * law.firstLike(t) + law.firstHeadLike(d);
             int open = set & ~asked[row];
             for (int c = 0; c < MOST_CROSSINGS && open >> c != 0; c++) {
-                if ((open >> c & 1) != 0 && city.mayLaw.value(c % city.wide, c / city.wide,
-                        city.folk.hours + t, city.folk.sold[c], d) != 0) {
+                if ((open >> c & 1) != 0
+                        && law.value(c % city.wide, c / city.wide, city.folk.hours + t, city.folk.sold[c], d) != 0) {
                     allowed[row] |= 1 << c;
                 }
             }
@@ -1743,8 +1765,9 @@ public final class LeftTurns {
             return last;
         }
 
+        /** The i-th turn, NONE if there are not so many. */
         int turnAt(int i) {
-            return turns[i];
+            return i >= 0 && i < length ? turns[i] : NONE;
         }
 
         /** The way with so many lefts at most, of the fewest streets, first by turns. */
@@ -1862,7 +1885,7 @@ public final class LeftTurns {
         }
 
         /** Tries all orders, the first by places first, so that only a better one takes its stead. */
-        void tour(int depth, int stand, int lefts, int streets) {
+        private void tour(int depth, int stand, int lefts, int streets) {
             if (depth >= size) {
                 compare(lefts, streets);
                 return;
