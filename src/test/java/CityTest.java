@@ -8,6 +8,7 @@ public final class CityTest {
         lines();
         faultsOfTokens();
         faultsOfPlace();
+        tokensEndWithTheText();
         faultsOfBounds();
         faultsOfTooMany();
         faultStays();
@@ -146,6 +147,17 @@ public final class CityTest {
         fault("may: 1 = not 1 = 1;", 2, 9);
         fault("hour;", 2, 4);
         fault("5;", 2, 0);
+    }
+
+    /** What stands on the tape behind the text doesn't lengthen its last token. */
+    private static void tokensEndWithTheText() {
+        int[][] cuts = {{3, 2, 0}, {4, 2, 4}, {5, 2, 5}, {6, 2, 6}, {8, 2, 8}, {9, 1, 5}, {10, 1, 5}};
+        for (int[] cut : cuts) {
+            LeftTurns x = new LeftTurns();
+            Check.feed(x, "hour 10000;");
+            due("city(" + cut[0] + ")", x.city(cut[0]), -30 - cut[1]);
+            due("its place", x.fault(1), cut[2]);
+        }
     }
 
     private static void faultsOfBounds() {

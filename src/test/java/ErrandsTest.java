@@ -112,6 +112,7 @@ public final class ErrandsTest {
         LeftTurns z = Check.city(NARROW + " may: x = 0 and [head = 2 or y = 1]; free 0 0;");
         freed(z, 3, 3, 1, 4);
         freed(Check.city(NARROW + " may: 0 = 1;"), 3, 20, -1, -1);
+        freed(Check.city("city 2 2; person 1 1 north; wall 0 1 1;"), 2, 3, 2, 3);
         LeftTurns w = Check.city(NARROW);
         w.fog(1, 1);
         freed(w, 3, 1, 0, 0);

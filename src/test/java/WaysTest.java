@@ -10,6 +10,7 @@ public final class WaysTest {
         waysByHour();
         waysAreBounded();
         backAndForth();
+        waysWithinTheirLefts();
         afterDeeds();
         wrongWays();
         fewest();
@@ -116,6 +117,22 @@ public final class WaysTest {
         due("with fewer", z.way(0, 0, 1), -1);
         way(z, 3, 3, 0, 3, 0, 2);
         way(z, 3, 120, 0, 3, 0, 2);
+    }
+
+    /** Ways whose later turns must keep within what the earlier ones leave. */
+    private static void waysWithinTheirLefts() {
+        way(Check.city("city 3 3; person 0 1 west; wall 0 0 2; free 2 1;"), 0, 3, 3, 0, 2, 2, 0);
+        way(Check.city("city 3 3; person 1 0 north; wall 0 1 0; wall 2 0 3; wall 2 1 0; wall 2 1 1; free 1 2;"), 5, 2, 3, 0, 3, 1);
+        way(Check.city("city 3 2; person 2 0 west; may: not head = 2;"), 4, 2, 0, 0, 3, 1);
+        way(Check.city("city 3 2; person 0 0 north; wall 1 1 0; may: not hour = 0;"), 3, 3, 1, 3, 2);
+        way(Check.city("city 3 3; person 2 2 west; wall 2 2 3; may: not head = 3;"), 0, 2, 1, 0, 3, 1, 0, 1);
+        // Back and forth till the hour comes in which one may turn left.
+        LeftTurns x = Check.city("city 2 2; person 1 0 west; wall 1 0 2; may: head = 1 or head = 3 or hour = 5;");
+        way(x, 2, 9, 0, 3, 3, 3, 3, 2);
+        way(x, 2, 120, 0, 3, 3, 3, 3, 2);
+        due("with fewer", x.way(0, 2, 8), -1);
+        due("fewest", x.fewest(0, 2, 60), 9);
+        due("one more to 3", x.enough(0), 10);
     }
 
     /** What was worked out ahead of a deed is of no use behind it. Here one may turn left in the hour 1 alone. */
