@@ -1080,7 +1080,7 @@ public final class LeftTurns {
         private static final int NO_TOKEN = 1;
         private static final int OUT_OF_PLACE = 2;
         private static final int OUT_OF_BOUNDS = 3;
-        private static final int TOO_DEEP = 4;
+        private static final int ONE_TOO_MANY = 4;
         private static final int DEEPEST = 6;
 
         private static final int END = 0;
@@ -1287,7 +1287,7 @@ public final class LeftTurns {
 
         private void personLine() {
             if (city.wide > 0 && city.folk.people >= MOST_PEOPLE) {
-                fail(TOO_DEEP);
+                fail(ONE_TOO_MANY);
                 return;
             }
             int c = crossingTold();
@@ -1325,7 +1325,7 @@ public final class LeftTurns {
         /** Of not [ ( so many are open; a seventh is refused, which also bounds the recursion. */
         private boolean tooDeep(int depth) {
             if (depth >= DEEPEST) {
-                fail(TOO_DEEP);
+                fail(ONE_TOO_MANY);
                 return true;
             }
             return false;

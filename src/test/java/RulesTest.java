@@ -14,6 +14,7 @@ public final class RulesTest {
         words(code);
         statics(code);
         methods(code);
+        rows(code);
         CHECK.end();
     }
 
@@ -51,6 +52,17 @@ public final class RulesTest {
             }
             boolean constant = line.matches("\\s*(public |private )?static final (int|long|String|int\\[\\]) [A-Z_0-9]+ = .*;");
             CHECK.due("a constant: " + line, constant ? 1 : 0, 1);
+        }
+    }
+
+    /** Objects and arrays are made with the object that keeps them, and in no other call. */
+    private static void rows(String code) {
+        int from = code.indexOf("    public LeftTurns() {");
+        int to = code.indexOf("\n    }", from);
+        String others = code.substring(0, from) + code.substring(to);
+        for (String line : others.split("\n")) {
+            boolean field = line.matches(" {8}(private )?(final )?[\\w\\[\\]]+ \\w+ = new .*;");
+            CHECK.due("made in a call: " + line, line.matches(".*\\bnew\\b.*|.*\\.clone\\b.*|.*copyOf.*") && !field ? 1 : 0, 0);
         }
     }
 
