@@ -16,11 +16,52 @@ final class Check {
         }
     }
 
+    void due(String call, boolean got) {
+        due(call, got ? 1 : 0, 1);
+    }
+
     void end() {
         System.out.println(name + ": " + asked + " asked, " + wrong + " wrong");
         if (wrong > 0) {
             System.exit(1);
         }
+    }
+
+    /** What is told of a person: its crossing, heading, lefts, coins, used ones. */
+    void person(LeftTurns x, int p, long... want) {
+        for (int what = 0; what < want.length; what++) {
+            due("person(" + p + ", " + what + ")", x.person(p, what), want[what]);
+        }
+    }
+
+    /** The first place that can't be, why, the crossing then, the lefts taken. */
+    void judged(LeftTurns x, int tray, long... want) {
+        for (int what = 0; what < want.length; what++) {
+            due("judge(" + tray + ", " + what + ")", x.judge(tray, what), want[what]);
+        }
+    }
+
+    /** A text has a fault; all but the tape is then as it was. */
+    void faulty(String text, int kind, int place) {
+        LeftTurns x = city("city 2 3; hour 7;");
+        x.hours(1);
+        due("city of " + text, read(x, text), -30 - kind);
+        due("fault(0) of " + text, x.fault(0), kind);
+        due("fault(1) of " + text, x.fault(1), place);
+        due("wide after " + text, x.count(0), 2);
+        due("hours after " + text, x.count(3), 8);
+        due("what can be undone after " + text, x.count(6), 1);
+        due("the tape after " + text, x.count(7), 0);
+        due("lines after " + text, x.count(8), 2);
+    }
+
+    /** A text has no fault, and so many lines. */
+    void good(String text, int lines) {
+        LeftTurns x = new LeftTurns();
+        due("city of " + text, read(x, text), lines);
+        due("fault(0) of " + text, x.fault(0), 0);
+        due("fault(1) of " + text, x.fault(1), -1);
+        due("lines of " + text, x.count(8), lines);
     }
 
     /** Feeds a text, with blanks behind it up to a multiple of 20. */
@@ -69,5 +110,32 @@ final class Check {
         for (int i = 0; i < values.length; i++) {
             x.write(tray, i, values[i]);
         }
+    }
+
+    /** A week by single calls, the draws worked out in longs: how many could be. */
+    static int weekByCalls(LeftTurns x, int seed, int times) {
+        long state = seed;
+        int could = 0;
+        for (int i = 0; i < times; i++) {
+            state = drawn(state);
+            long kind = (state >> 16) % 4;
+            if (kind == 3) {
+                could += x.hours(1) > 0 ? 1 : 0;
+                continue;
+            }
+            state = drawn(state);
+            int p = (int) ((state >> 16) % x.count(2));
+            if (kind == 2) {
+                could += x.buy(p, 1) >= 0 ? 1 : 0;
+                continue;
+            }
+            state = drawn(state);
+            could += x.go(p, (int) ((state >> 16) % 4)) >= 0 ? 1 : 0;
+        }
+        return could;
+    }
+
+    private static long drawn(long state) {
+        return state * 1103515245L + 12345 & 0xffffffffL;
     }
 }

@@ -91,12 +91,7 @@ public final class CityTest {
     }
 
     private static void fault(String text, int kind, int place) {
-        LeftTurns x = new LeftTurns();
-        due("city of " + text, Check.read(x, text), -30 - kind);
-        due("fault(0) of " + text, x.fault(0), kind);
-        due("fault(1) of " + text, x.fault(1), place);
-        due("wide after " + text, x.count(0), 0);
-        due("the tape after " + text, x.count(7), 0);
+        CHECK.faulty(text, kind, place);
     }
 
     private static void faultsOfTokens() {

@@ -27,29 +27,23 @@ public final class DeedsTest {
         CHECK.due(call, got, want);
     }
 
-    private static void person(LeftTurns x, int p, long... want) {
-        for (int what = 0; what < want.length; what++) {
-            due("person(" + p + ", " + what + ")", x.person(p, what), want[what]);
-        }
-    }
-
     private static void going() {
         LeftTurns x = Check.city("city 3 3; person 1 1 north lefts 4 coins 7; free 2 1; hour 22;");
         due("straight", x.go(0, 0), 1);
-        person(x, 0, 1, 0, 4, 7, 0);
+        CHECK.person(x, 0, 1, 0, 4, 7, 0);
         due("an hour has gone by", x.count(3), 23);
         due("no street", x.go(0, 0), -12);
         due("a refused one takes no hour", x.count(3), 23);
         due("nor can it be undone", x.count(6), 1);
         due("right", x.go(0, 1), 2);
-        person(x, 0, 2, 1, 4, 7, 0);
+        CHECK.person(x, 0, 2, 1, 4, 7, 0);
         due("right", x.go(0, 1), 5);
         due("back at a free one", x.go(0, 3), 2);
-        person(x, 0, 2, 0, 4, 7, 0);
+        CHECK.person(x, 0, 2, 0, 4, 7, 0);
         due("left", x.go(0, 2), 1);
-        person(x, 0, 1, 3, 3, 7, 1);
+        CHECK.person(x, 0, 1, 3, 3, 7, 1);
         due("back", x.go(0, 3), 2);
-        person(x, 0, 2, 1, 1, 7, 3);
+        CHECK.person(x, 0, 2, 1, 1, 7, 3);
         due("back with one", x.go(0, 3), -14);
         due("no such person", x.go(1, 0), -11);
         due("no such person", x.go(-1, 0), -11);
@@ -88,28 +82,22 @@ public final class DeedsTest {
         due("999 used, two are lost", x.person(0, 4), 999);
     }
 
-    private static void judged(LeftTurns x, int tray, long... want) {
-        for (int what = 0; what < 4; what++) {
-            due("judge(" + tray + ", " + what + ")", x.judge(tray, what), want[what]);
-        }
-    }
-
     private static void judging() {
         LeftTurns x = Check.city("city 3 3; person 1 1 north lefts 1; person 0 2 east lefts 9; may: hour < 4;");
         Check.tray(x, 0, 0, 0, 2);
-        judged(x, 0, -1, 0, 0, 1);
+        CHECK.judged(x, 0, -1, 0, 0, 1);
         Check.tray(x, 1, 0, 0, 0, 2);
-        judged(x, 1, 2, 2, 1, 0);
+        CHECK.judged(x, 1, 2, 2, 1, 0);
         Check.tray(x, 2, 0, 0, 3);
-        judged(x, 2, 2, 4, 1, 0);
+        CHECK.judged(x, 2, 2, 4, 1, 0);
         Check.tray(x, 3, 1, 0, 2, 3, 3, 3);
-        judged(x, 3, 5, 3, 4, 5);
+        CHECK.judged(x, 3, 5, 3, 4, 5);
         due("nothing has changed", x.count(3), 0);
         due("nobody has gone", x.person(1, 0), 6);
         due("no lefts are gone", x.count(9), 10);
         due("nothing can be undone", x.count(6), 0);
         x.hours(3);
-        judged(x, 3, 2, 3, 7, 0);
+        CHECK.judged(x, 3, 2, 3, 7, 0);
     }
 
     private static void judgingWrongOnes() {
@@ -120,21 +108,21 @@ public final class DeedsTest {
         due("what, ahead of the missing tray", x.judge(0, 4), -2);
         due("what", x.judge(0, -1), -2);
         x.numbers(0, 0, 0);
-        judged(x, 0, 0, 1, -1, 0);
+        CHECK.judged(x, 0, 0, 1, -1, 0);
         Check.tray(x, 0, 1);
-        judged(x, 0, 0, 1, -1, 0);
+        CHECK.judged(x, 0, 0, 1, -1, 0);
         Check.tray(x, 0, -1, 0);
-        judged(x, 0, 0, 1, -1, 0);
+        CHECK.judged(x, 0, 0, 1, -1, 0);
         Check.tray(x, 0, 0);
-        judged(x, 0, -1, 0, 4, 0);
+        CHECK.judged(x, 0, -1, 0, 4, 0);
         Check.tray(x, 0, 0, 0, 4);
-        judged(x, 0, 2, 1, 1, 0);
+        CHECK.judged(x, 0, 2, 1, 1, 0);
         Check.tray(x, 0, 0, 1, -1);
-        judged(x, 0, 2, 1, 5, 0);
+        CHECK.judged(x, 0, 2, 1, 5, 0);
         Check.tray(x, 0, 1L << 32);
-        judged(x, 0, 0, 1, -1, 0);
+        CHECK.judged(x, 0, 0, 1, -1, 0);
         Check.tray(x, 0, 0, 1L << 32);
-        judged(x, 0, 1, 1, 4, 0);
+        CHECK.judged(x, 0, 1, 1, 4, 0);
     }
 
     private static void walking() {
@@ -148,7 +136,7 @@ public final class DeedsTest {
         due("without turns", x.walk(0), 0);
         Check.tray(x, 0, 0, 2, 0);
         due("till one can't be", x.walk(0), 1);
-        person(x, 0, 3, 3, 0, 0, 1);
+        CHECK.person(x, 0, 3, 3, 0, 0, 1);
         due("an hour", x.count(3), 1);
         due("it can be undone as a whole", x.count(6), 1);
         Check.tray(x, 0, 0, 1, 1, 1);
@@ -158,16 +146,16 @@ public final class DeedsTest {
         due("none", x.walk(0), 0);
         due("none is kept", x.count(6), 2);
         due("undone", x.undo(1), 1);
-        person(x, 0, 3, 3, 0, 0, 1);
+        CHECK.person(x, 0, 3, 3, 0, 0, 1);
         due("undone", x.undo(1), 0);
-        person(x, 0, 4, 0, 1, 0, 0);
+        CHECK.person(x, 0, 4, 0, 1, 0, 0);
         due("hours are back", x.count(3), 0);
     }
 
     private static void buying() {
         LeftTurns x = Check.city("city 2 2; person 0 0 south lefts 79 coins 100; price: 3 + sold*2 + head; person 1 0 south lefts 80 coins 999;");
         due("three, each dearer", x.buy(0, 3), 5 + 7 + 9);
-        person(x, 0, 0, 2, 82, 79, 0);
+        CHECK.person(x, 0, 0, 2, 82, 79, 0);
         due("sold there", x.crossing(0, 1), 3);
         due("sold in all", x.count(4), 3);
         due("price now", x.crossing(0, 0), 9);
@@ -193,13 +181,13 @@ public final class DeedsTest {
         x.go(0, 0);
         x.go(0, 3);
         x.go(0, 3);
-        person(x, 0, 1, 1, 1, 3, 4);
+        CHECK.person(x, 0, 1, 1, 1, 3, 4);
         due("four for a third each, cut", x.sell(0), 4 * 3);
-        person(x, 0, 1, 1, 1, 15, 0);
+        CHECK.person(x, 0, 1, 1, 1, 15, 0);
         due("sold stays", x.count(4), 0);
         due("none left to sell", x.sell(0), -5);
         due("undone", x.undo(1), 3);
-        person(x, 0, 1, 1, 1, 3, 4);
+        CHECK.person(x, 0, 1, 1, 1, 3, 4);
         x.buy(0, 0);
         x.hours(1);
         due("head counts", x.price(1, 0, 0) / 3, 2);
@@ -303,7 +291,7 @@ public final class DeedsTest {
         due("sold", x.count(4), 2);
         due("one", x.undo(1), 0);
         due("sold", x.count(4), 0);
-        person(x, 0, 0, 1, 5, 9, 0);
+        CHECK.person(x, 0, 0, 1, 5, 9, 0);
         due("none", x.undo(1), -3);
     }
 
@@ -364,7 +352,7 @@ public final class DeedsTest {
         int could = x.week(7, 60);
         due("some could be", could > 0 && could < 60 ? 1 : 0, 1);
         due("it is undone as a whole", x.undo(1), 0);
-        person(x, 0, 0, 0, 0, 0, 0);
+        CHECK.person(x, 0, 0, 0, 0, 0, 0);
         due("hours", x.count(3), 0);
     }
 
@@ -372,24 +360,7 @@ public final class DeedsTest {
         int seed = 5;
         LeftTurns x = Check.city("city 3 3; person 1 1 north lefts 3 coins 4; person 0 0 south coins 2;");
         LeftTurns y = Check.city("city 3 3; person 1 1 north lefts 3 coins 4; person 0 0 south coins 2;");
-        int could = 0;
-        long state = seed;
-        for (int i = 0; i < 40; i++) {
-            state = state * 1103515245L + 12345 & 0xffffffffL;
-            long kind = (state >> 16) % 4;
-            if (kind == 3) {
-                could += y.hours(1) > 0 ? 1 : 0;
-                continue;
-            }
-            state = state * 1103515245L + 12345 & 0xffffffffL;
-            int p = (int) ((state >> 16) % 2);
-            if (kind == 2) {
-                could += y.buy(p, 1) >= 0 ? 1 : 0;
-                continue;
-            }
-            state = state * 1103515245L + 12345 & 0xffffffffL;
-            could += y.go(p, (int) ((state >> 16) % 4)) >= 0 ? 1 : 0;
-        }
+        int could = Check.weekByCalls(y, seed, 40);
         due("week", x.week(seed, 40), could);
         for (int p = 0; p < 2; p++) {
             for (int what = 0; what < 5; what++) {

@@ -135,29 +135,6 @@ public final class FaceTest {
         }
     }
 
-    private static List<Long> state(LeftTurns x) {
-        List<Long> all = new ArrayList<>();
-        for (int what = 0; what < 10; what++) {
-            all.add((long) x.count(what));
-        }
-        for (int p = 0; p < 5; p++) {
-            for (int what = 0; what < 5; what++) {
-                all.add((long) x.person(p, what));
-            }
-        }
-        for (int c = 0; c < 25; c++) {
-            for (int what = 0; what < 5; what++) {
-                all.add((long) x.crossing(c, what));
-            }
-        }
-        for (int tray = 0; tray < 4; tray++) {
-            for (int what = 0; what < 4; what++) {
-                all.add((long) x.judge(tray, what));
-            }
-        }
-        return all;
-    }
-
     /** Questions and refused calls leave all as it was. */
     private static void refusedChangeNothing() throws ReflectiveOperationException {
         List<String> deeds = List.of("feed", "city", "go", "walk", "buy", "sell", "hand", "fog", "hours", "undo", "week", "numbers",
@@ -176,10 +153,10 @@ public final class FaceTest {
                     long v = odd(random);
                     values[j] = m.getParameterTypes()[j] == long.class ? (Object) v : (Object) (int) v;
                 }
-                List<Long> before = state(x);
+                List<Long> before = Twins.seen(x);
                 long answer = ((Number) m.invoke(x, values)).longValue();
                 if (!deeds.contains(m.getName()) || answer < 0 && !m.getName().equals("write")) {
-                    CHECK.due(told(m) + " of " + Arrays.toString(values) + " changes nothing", before.equals(state(x)) ? 1 : 0, 1);
+                    CHECK.due(told(m) + " of " + Arrays.toString(values) + " changes nothing", before.equals(Twins.seen(x)));
                 }
             }
         }
