@@ -21,6 +21,7 @@ public final class CityBoundsTest {
         heads();
         soldOnes();
         why();
+        whyByPlace();
         whyAtFreeOnes();
         CHECK.end();
     }
@@ -302,6 +303,17 @@ public final class CityBoundsTest {
         due("no street is told ahead of the law", x.why(0, 2), 2);
         due("the law is told ahead of lefts", x.why(0, 3), 3);
         due("no such turn is told ahead of all", x.why(0, 5), 1);
+    }
+
+    /** Laws ask for the x and y of the crossing at which one turns. */
+    private static void whyByPlace() {
+        for (int c = 0; c < 12; c++) {
+            LeftTurns x = Check.city("city 3 4;person " + c % 3 + " " + c / 3 + " south lefts 9;may:x=1 and y=2;price:10*x+y;"
+                + "person " + c % 3 + " " + c / 3 + " north lefts 9;");
+            int away = c / 3 > 0 ? 0 : 1;
+            due("back at " + c, x.why(away, 3), c == 7 ? 0 : 3);
+            due("price at " + c, x.crossing(c, 0), 10 * (c % 3) + c / 3);
+        }
     }
 
     private static void whyAtFreeOnes() {

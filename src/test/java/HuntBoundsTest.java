@@ -13,6 +13,7 @@ public final class HuntBoundsTest {
         foundInThirty();
         foundNothing();
         foundTen();
+        foundBesideFreeOnes();
         foundInOrder();
         chasesOfNone();
         chasesOfThirty();
@@ -91,7 +92,7 @@ public final class HuntBoundsTest {
             due("the last one", Check.city(city + "price:50-x-5*y;").cheap(), wide * high - 1);
             due("the first of the last row", Check.city(city + "price:50-y;").cheap(), wide * (high - 1));
             due("the first that is for nothing", Check.city(city + "price:1-x;").cheap(), 1);
-            due("heading north", Check.city(city + "price:head*(9-x)+x;").cheap(), 0);
+            due("heading north", Check.city(city + "price:head*(9-2*x)+x;").cheap(), 0);
         }
     }
 
@@ -171,6 +172,19 @@ public final class HuntBoundsTest {
         found(y, 10, 1 << 6, 4, 3, 6, 7, 4, 3, 6, 7, 4, 3);
     }
 
+    /** Behind an envelope at 4, a left, a right and back at 3, where lefts are free, leave none. */
+    private static void foundBesideFreeOnes() {
+        LeftTurns x = Check.city("city 3 3;person 1 1 north;free 0 1;");
+        found(x, 2, 1 | 1 << 4 | 1 << 6, 4);
+        found(x, 2, 0, 4, 3);
+        found(x, 3, 1 << 7, 4, 6);
+        LeftTurns y = Check.city("city 3 3;person 1 1 north;");
+        y.fog(3, 2);
+        found(y, 2, 1 | 1 << 4 | 1 << 6, 4);
+        y.fog(3, 1);
+        found(y, 2, 1, 4);
+    }
+
     private static void foundInOrder() {
         LeftTurns x = Check.city("city 3 3;person 1 1 north;");
         found(x, 2, 1 << 6, 4, 3);
@@ -242,7 +256,9 @@ public final class HuntBoundsTest {
         for (int n : new int[] {-1, 31, Integer.MIN_VALUE, Integer.MAX_VALUE}) {
             due("posts in " + n, x.posts(12, 1, 2, n), -3);
         }
-        due("the last crossing", x.posts(24, 0, 0, 0) >> 24 & 1, 1);
+        for (int i = 0; i < 16; i++) {
+            due("the last crossing, heading all ways", x.posts(24, i / 4, i % 4, 0) >> 24, 1);
+        }
         due("behind it", x.posts(25, 0, 0, 0), -2);
         due("behind the last direction", x.posts(24, 4, 0, 0), -2);
         due("behind the last direction", x.posts(24, 0, 4, 0), -2);

@@ -16,6 +16,7 @@ public final class WayBoundsTest {
         noStreets();
         oneLeftMoreOrLess();
         turnsOfAWay();
+        turnsAtFreeOnes();
         alongTheSpiral();
         fogOnTheWay();
         cheapestAtTheGate();
@@ -148,6 +149,26 @@ public final class WayBoundsTest {
         }
     }
 
+    private static void way(String text, int c, int k, int... turns) {
+        LeftTurns x = Check.city(text);
+        due("streets by " + text, x.way(0, c, k), turns.length);
+        for (int i = 0; i < turns.length; i++) {
+            due("turn " + i + " by " + text, x.turn(0, c, k, i), turns[i]);
+        }
+        due("behind the last one", x.turn(0, c, k, turns.length), -1);
+    }
+
+    /** Lefts and backs at free crossings are turns of a way without lefts, also in its midst. */
+    private static void turnsAtFreeOnes() {
+        way("city 2 2;person 1 0 west;free 0 0;", 2, 0, 0, 2);
+        way("city 2 2;person 0 1 east;free 1 1;", 1, 0, 0, 2);
+        way("city 2 2;person 0 0 south;free 0 1;free 1 1;", 1, 0, 0, 2, 2);
+        way("city 2 2;person 1 1 north;free 1 0;free 0 0;wall 1 1 3;", 2, 0, 0, 2, 2);
+        way("city 3 2;person 1 0 east;wall 2 0 2;wall 1 0 2;free 2 0;", 0, 0, 0, 3, 0);
+        way("city 3 2;person 1 0 east;wall 2 0 2;wall 1 0 2;free 2 0;free 0 0;", 3, 0, 0, 3, 0, 2);
+        way("city 3 2;person 1 0 east;wall 2 0 2;wall 1 0 2;free 2 0;", 3, 1, 0, 3, 0, 2);
+    }
+
     /** In a corridor every crossing has its number of streets; one street fewer won't do, by whatever lefts or corners. */
     private static void alongTheSpiral() {
         LeftTurns x = Check.city(SPIRAL);
@@ -193,6 +214,9 @@ public final class WayBoundsTest {
         LeftTurns y = Check.city(Gate.open(24) + "price:100*day+hour+500*x+50*y+7*head;");
         due("in the hour 24", y.cheapest(0, 5, 25), 100 + 500 + 50 + 7);
         due("in one fewer", y.cheapest(0, 5, 24), -1);
+        due("for one in one street", Check.city(OPEN).cheapest(0, 3, 1), 1);
+        due("for one in four", Check.city(OPEN).cheapest(0, 3, 4), 1);
+        due("for nothing in five", Check.city(OPEN).cheapest(0, 3, 5), 0);
         LeftTurns z = Check.city(OPEN + "price:500*500*4+1;");
         due("back is two", z.cheapest(0, 7, 1), 2000000);
         due("for nothing", Check.city(OPEN + "price:0-1;").cheapest(0, 7, 1), 0);
