@@ -2118,10 +2118,11 @@ public final class LeftTurns {
 
         /** A number as an int; NONE for one that is missing, below 0 or too high for anything a tray tells. */
         int asSmall(int i) {
-            if (i < 0 || i >= size || values[i] < 0 || values[i] > Integer.MAX_VALUE) {
+            if (i < 0 || i >= size) {
                 return NONE;
             }
-            return (int) values[i];
+            int small = (int) values[i];
+            return small >= 0 && small == values[i] ? small : NONE;
         }
 
         boolean allBelow(int limit) {

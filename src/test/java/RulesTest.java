@@ -1,6 +1,7 @@
 import java.io.IOException;
 import java.nio.file.Files;
 import java.nio.file.Path;
+import java.util.List;
 import java.util.regex.Matcher;
 import java.util.regex.Pattern;
 
@@ -12,6 +13,7 @@ public final class RulesTest {
         String source = Files.readString(Path.of("src/main/java/LeftTurns.java"));
         String code = source.replaceAll("(?s)/\\*.*?\\*/", "").replaceAll("//[^\n]*", "").replaceAll("\"[^\"\n]*\"", "\"\"");
         words(code);
+        library(code);
         statics(code);
         methods(code);
         rows(code);
@@ -40,6 +42,15 @@ public final class RulesTest {
             if (c > 126) {
                 CHECK.due("a sign beyond 126", c, 0);
             }
+        }
+    }
+
+    /** Of the library the class needs no more than this; all of it stands in rule 4. */
+    private static void library(String code) {
+        List<String> known = List.of("Integer.bitCount", "Math.max", "Math.min", "Arrays.fill", "System.arraycopy");
+        Matcher m = Pattern.compile("\\b(Integer|Long|Math|Arrays|System|Character|Object|String|StringBuilder)\\.\\w+").matcher(code);
+        while (m.find()) {
+            CHECK.due("the library's " + m.group() + " may be used", known.contains(m.group()));
         }
     }
 
