@@ -16,7 +16,20 @@ final class AllWalks {
         "city 3 3;wall 1 1 1;free 0 0;person 1 1 north lefts 50;price:1+hour+3*head+x;may:not [head=2 and hour=1];hour 23;",
         "city 2 3;wall 0 2 0;free 1 1;person 0 1 east lefts 50 coins 9;price:7-hour+y*2;may:hour<7 or head=0;hour 3;",
         "city 4 2;wall 2 0 2;person 1 1 west lefts 50;price:9-4*hour;may:head<3 or x>1;",
-        "city 3 2;person 2 0 west lefts 50;"};
+        "city 3 2;person 2 0 west lefts 50;",
+        "city 3 2;wall 1 1 0;person 0 0 north lefts 50;may:not hour=0;"};
+    /** Where later turns must keep within what earlier ones leave, and the largest city. */
+    static final String[] WIDE_CITIES = {
+        "city 3 3;wall 0 0 2;free 2 1;person 0 1 west lefts 50;",
+        "city 3 3;wall 0 1 0;wall 2 0 3;wall 2 1 0;wall 2 1 1;free 1 2;person 1 0 north lefts 50;",
+        "city 3 3;wall 2 2 3;person 2 2 west lefts 50;may:not head=3;",
+        "city 5 5;person 4 4 north lefts 50;price:1+head+hour;hour 22;"};
+
+    static List<String> allCities() {
+        List<String> all = new ArrayList<>(List.of(CITIES));
+        all.addAll(List.of(WIDE_CITIES));
+        return all;
+    }
 
     private final Consumer<LeftTurns> telling;
     final List<Walk> walks = new ArrayList<>();

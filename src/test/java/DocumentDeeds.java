@@ -225,7 +225,7 @@ final class DocumentDeeds {
 
     private void selling() {
         doc.says("each can be SOLD for a third of PRICE (cut) where the PERSON is, HEADING as it does; sold stays.");
-        LeftTurns x = Check.city("city 3 3;person 1 1 north lefts 9 coins 1;price:8+head+100*x;");
+        LeftTurns x = Check.city("city 3 3;person 1 1 north lefts 9 coins 1;person 0 1 west coins 99;price:8+head+100*x-3*sold;");
         x.go(0, 2);
         x.go(0, 3);
         x.go(0, 3);
@@ -233,6 +233,10 @@ final class DocumentDeeds {
         check.person(x, 0, 3, 3, 4, 16, 0);
         due("sold", x.crossing(3, 1), 0);
         due("sold in all", x.count(4), 0);
+        x.undo(1);
+        x.buy(1, 1);
+        due("where one was sold: a third of 8", x.sell(0), 5 * 2);
+        due("sold stays", x.crossing(3, 1), 1);
     }
 
     private void handing() {
@@ -286,6 +290,9 @@ final class DocumentDeeds {
         judged(x, 0, 1, 1, 0);
         judged(x, 0, 1, -1, 0);
         judged(x, 0, 1);
+        due("without a person no street is gone", x.walk(0), 0);
+        judged(x, 0, 1, 1L << 32, 0);
+        judged(x, 1, 1, 0, 1L << 32);
         judged(x, 2, 1, 0, 0, 4);
         judged(x, 1, 1, 0, -1);
         judged(x, 2, 2, 0, 0, 0);
@@ -293,6 +300,8 @@ final class DocumentDeeds {
         judged(x, 2, 4, 0, 1, 3);
         judged(x, -1, 0, 0, 2);
         due("the person and the turn ahead of the street", x.why(1, 3), 1);
+        due("no person -1", x.why(-1, 0), 1);
+        due("no turn -1", x.why(0, -1), 1);
         LeftTurns y = Check.city("city 2 2;person 0 0 north;may:1=2;");
         due("the street ahead of the law", y.why(0, 2), 2);
         due("the law ahead of lefts", y.why(0, 3), 3);
@@ -358,6 +367,17 @@ final class DocumentDeeds {
         due("the walk is undone as a whole", x.undo(1), 0);
         check.person(x, 0, 4, 0, 9, 9, 0);
         due("hours", x.count(3), 3);
+        x.go(0, 1);
+        x.week(77, 60);
+        due("a street and a week", x.count(6), 2);
+        due("the week is undone as a whole", x.undo(1), 1);
+        check.person(x, 0, 5, 1, 9, 9, 0);
+        due("hours", x.count(3), 4);
+        due("then the street", x.undo(1), 0);
+        check.person(x, 0, 4, 0, 9, 9, 0);
+        check.person(x, 1, 0, 2, 0, 3, 0);
+        due("hours", x.count(3), 3);
+        due("sold", x.count(4), 0);
         for (int i = 1; i <= 13; i++) {
             x.hours(i);
             due("ten at most", x.count(6), Math.min(10, i));

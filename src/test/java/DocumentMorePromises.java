@@ -123,7 +123,7 @@ final class DocumentMorePromises {
     private void ways() {
         doc.promises(24, "ways", "long ways(int p, int c, int n, int k)");
         doc.says("How many ways of just n STREETS (0 to 20) that take k LEFTS (0 to 40) at most go to a CROSSING.");
-        for (String text : AllWalks.CITIES) {
+        for (String text : AllWalks.allCities()) {
             AllWalks all = new AllWalks(text, 5);
             LeftTurns x = Check.city(text);
             for (int c = 0; c < 6; c++) {
@@ -150,7 +150,7 @@ final class DocumentMorePromises {
     private void reach() {
         doc.promises(25, "reach", "int reach(int p, int k)");
         doc.says("CROSSINGS to which a PERSON comes within 60 STREETS with k LEFTS (0 to 120) or fewer, as bits.");
-        for (String text : AllWalks.CITIES) {
+        for (String text : AllWalks.allCities()) {
             LeftTurns x = Check.city(text);
             for (int k : new int[] {0, 1, 2, 3, 120}) {
                 int bits = 0;
@@ -173,7 +173,7 @@ final class DocumentMorePromises {
     private void enough() {
         doc.promises(26, "enough", "int enough(int p)");
         doc.says("The least k with which a PERSON comes within 60 STREETS to all CROSSINGS to which it comes in these at all.");
-        for (String text : AllWalks.CITIES) {
+        for (String text : AllWalks.allCities()) {
             LeftTurns x = Check.city(text);
             int least = 0;
             while (x.reach(0, least) != x.reach(0, 120)) {
@@ -199,6 +199,7 @@ final class DocumentMorePromises {
             due("from the middle, heading " + d, x.byRights(4, d), 5);
         }
         due("from an edge, heading south", x.byRights(1, 2), 5);
+        due("to crossing 0", x.byRights(1, 0), 5);
         due("no law matters, nor who is where", Check.city("city 3 3;free 1 1;person 1 1 north;").byRights(4, 0), 5);
         doc.says("NONE: by none, no STREET goes left;");
         due("by none", Check.city("city 2 2;").byRights(3, 0), -1);
@@ -230,6 +231,12 @@ final class DocumentMorePromises {
         due("streets of two", y.round(0, 0, 1), 3);
         due("first", y.round(0, 0, 10), 3);
         due("then", y.round(0, 0, 11), 0);
+        Check.tray(y, 0, 3, 3);
+        due("lefts of another one", y.round(0, 0, 0), 1);
+        due("streets of another one", y.round(0, 0, 1), 1);
+        Check.tray(y, 0, 2, 1);
+        due("lefts of a longer one", y.round(0, 0, 0), 1);
+        due("streets of a longer one", y.round(0, 0, 1), 2);
         doc.says("NONE: no order can be; -2: the PERSON, the TRAY, what; -6; -4: not 1 to 4 numbers; -3: one is no CROSSING.");
         LeftTurns z = Check.city(CLOSED);
         Check.tray(z, 0, 0, 3);
@@ -288,9 +295,13 @@ final class DocumentMorePromises {
     private void bestCorner() {
         doc.promises(30, "bestCorner", "int bestCorner(int p, int c, int n)");
         doc.says("The CROSSING by which, made FREE, FEWEST within n STREETS (0 to 30) is lowered most, the first.");
-        for (String text : AllWalks.CITIES) {
+        for (String text : AllWalks.allCities()) {
             bestCorners(text, 4);
         }
+        due("now or never", Check.city("city 2 2;person 1 0 west;may:hour=0;").bestCorner(0, 3, 1), 1);
+        due("the first of two by which one left is saved", Check.city(RING).bestCorner(0, 8, 6), 0);
+        due("the first of three", Check.city(RING).bestCorner(0, 5, 30), 0);
+        due("back, two lefts at one crossing", Check.city(OPEN).bestCorner(0, 7, 1), 4);
         doc.says("NONE: by none, there is no way; -2; -3.");
         LeftTurns x = Check.city(OPEN);
         due("by none", x.bestCorner(0, 7, 30), -1);
@@ -346,7 +357,7 @@ final class DocumentMorePromises {
         doc.says("The CROSSING with the lowest PRICE now (head 0), the first.");
         due("the lowest", Check.city("city 3 3;price:20-x-3*y;").cheap(), 8);
         due("the first", Check.city("city 3 3;price:20-3*y;").cheap(), 6);
-        due("head 0", Check.city("city 2 2;price:9+head*x*9-y;").cheap(), 2);
+        due("head 0", Check.city("city 2 2;person 1 0 east;price:9+head*(1-x)-y*head;").cheap(), 0);
         LeftTurns x = Check.city("city 2 2;person 0 0 east coins 9;price:3+sold+x*hour;");
         due("now", x.cheap(), 0);
         x.buy(0, 1);
@@ -413,18 +424,38 @@ final class DocumentMorePromises {
         doc.promises(35, "chase", "int chase(int thief, int thiefHeads, int watch, int watchHeads)");
         doc.says("CHASE: in how many goings of the watch (0 to 30) it surely CATCHES, whatever the thief does.");
         LeftTurns x = Check.city("city 2 2;");
+        due("not at all", x.chase(3, 1, 0, 3), -1);
         due("none", x.chase(2, 2, 2, 0), 0);
         due("one", x.chase(2, 2, 3, 3), 1);
         due("two", x.chase(2, 2, 1, 2), 2);
         due("the thief would be caught at once at 1, not at 2", x.chase(0, 1, 1, 2), 2);
+        LeftTurns wide = Check.city("city 5 5;");
+        due("along the edge to a corner", wide.chase(24, 1, 20, 1), 4);
+        due("down the edge to a corner", wide.chase(24, 1, 4, 2), 4);
+        due("along two edges", wide.chase(24, 1, 0, 1), 8);
+        due("at the other end one is too late", wide.chase(24, 1, 0, 3), -1);
+        due("as many as can be", longestChase("city 4 5;wall 0 3 1;"), 30);
+        Check.read(x, "city 2 2;wall 0 1 1;");
+        due("in another city", x.chase(2, 2, 3, 3), -1);
         doc.says("NONE: not surely by then; -2: the CROSSINGS, the directions.");
         due("never", x.chase(2, 2, 1, 0), -1);
-        due("not surely: he may go to 2", x.chase(0, 1, 1, 0), -1);
+        due("not surely: he may go to 2", Check.city("city 2 2;").chase(0, 1, 1, 0), -1);
         int[][] wrong = {{4, 0, 0, 0}, {-1, 0, 0, 0}, {0, 4, 0, 0}, {0, -1, 0, 0}, {0, 0, 4, 0}, {0, 0, -1, 0}, {0, 0, 0, 4},
             {0, 0, 0, -1}};
         for (int[] w : wrong) {
             due("chase", x.chase(w[0], w[1], w[2], w[3]), -2);
         }
+    }
+
+    private static int longestChase(String text) {
+        int longest = -1;
+        for (int thief = 0; thief < 80; thief++) {
+            LeftTurns x = Check.city(text);
+            for (int watch = 0; watch < 80; watch++) {
+                longest = Math.max(longest, x.chase(thief / 4, thief % 4, watch / 4, watch % 4));
+            }
+        }
+        return longest;
     }
 
     private void posts() {
@@ -512,6 +543,8 @@ final class DocumentMorePromises {
         check.judged(x, 0, -1, 0, 3, 1);
         x.numbers(0, 0, 5);
         due("fewer than it has places", x.lists(0, 1, 1, 0), 2);
+        check.judged(x, 0, 2, 2, 1, 0);
+        due("where it is", x.lists(0, 1, 4, 0), 1);
         x.numbers(0, 0, 0);
         due("no places", x.lists(0, 1, 1, 0), 0);
         doc.says("-2: the TRAY, the PERSON, the CROSSING; -6; -3: k; -5: there is none.");

@@ -68,8 +68,9 @@ final class DocumentPromises {
     private void city() {
         doc.promises(3, "city", "int city(int n)");
         doc.says("The first n bytes of THE TAPE (which is empty then) are THE CITY, nothing can be UNDONE: how many LINES");
-        LeftTurns x = Check.city("city 3 3;person 0 0 east;price:9;free 1 1;wall 0 0 1;");
+        LeftTurns x = Check.city("city 3 3;person 0 0 east;price:9;may:1=2;free 1 1;wall 0 0 1;");
         x.hours(3);
+        x.fog(0, 9);
         Check.feed(x, "city 2 2;hour 5;!!!!");
         due("lines", x.city(16), 2);
         due("the tape is empty", x.count(7), 0);
@@ -81,6 +82,14 @@ final class DocumentPromises {
         due("free", x.count(5), 0);
         due("the price", x.price(0, 0, 0), 1);
         due("no wall", x.street(0, 1), 1);
+        Check.read(x, "city 2 2;person 0 0 south;hour 5;");
+        due("no law: a left lacks, it is not forbidden", x.why(0, 2), 4);
+        Check.feed(x, "hour 12;");
+        due("the first 6 bytes", x.city(6), -32);
+        due("end with 1", x.fault(1), 6);
+        Check.feed(x, "hourly");
+        due("the first 4 bytes", x.city(4), -32);
+        due("end with hour", x.fault(1), 4);
         doc.says("(all stays with a FAULT).");
         Twins told = new Twins(check, y -> {
             Check.read(y, "city 3 3;person 1 1 east lefts 9 coins 9;price:9;hour 3;");
@@ -96,6 +105,8 @@ final class DocumentPromises {
         due("the tape stays", x.count(7), 20);
         due("hours stay", x.count(3), 5);
         due("all of it", x.city(20), 1);
+        due("not wide", x.count(0), 0);
+        due("not high", x.count(1), 0);
         due("above none", x.city(1), -3);
         due("none", x.city(0), 0);
         doc.says("-30 less the FAULT.");

@@ -118,6 +118,7 @@ final class DocumentTexts {
     private void truths() {
         doc.says("TRUTH: BOTH { or BOTH };");
         holds("1=2 or 1=1", true);
+        holds("2<1 or 1>2 or 1=1", true);
         holds("1=1 or 1=2", true);
         holds("1=2 or 1=2 or 1=1", true);
         holds("1=2 or 1=2 or 1=2", false);
@@ -126,6 +127,7 @@ final class DocumentTexts {
         fault(2, "may:^or 1=1;");
         doc.says("BOTH: UNIT { and UNIT };");
         holds("1=1 and 1=1", true);
+        holds("1=1 and 1<2 and 2>1 and not 1=2 and [1=1]", true);
         holds("1=1 and 1=2", false);
         holds("1=2 and 1=1", false);
         holds("1=1 and 1=1 and 1=2", false);
@@ -270,7 +272,16 @@ final class DocumentTexts {
             due("nor back", x.street(beside[d], (d + 2) % 4), -1);
             due("all the others", allStreets(x), 22);
         }
-        due("x, then y", Check.city("city 3 2;wall 2 0 2;").street(2, 2), -1);
+        LeftTurns open = Check.city("city 3 2;");
+        for (int c = 0; c < 6; c++) {
+            for (int d = 0; d < 4; d++) {
+                LeftTurns x = Check.city("city 3 2;wall " + c % 3 + " " + c / 3 + " " + d + ";");
+                int next = open.street(c, d);
+                due("from " + c, x.street(c, d), -1);
+                due("nor back from " + next, next < 0 ? -1 : x.street(next, (d + 2) % 4), -1);
+                due("all the others", allStreets(x), next < 0 ? 14 : 12);
+            }
+        }
         due("a wall at the edge", allStreets(Check.city("city 3 3;wall 0 0 0;wall 2 2 1;")), 24);
         fault(3, "city 3 2;wall ^3 0 0;");
         fault(3, "city 3 2;wall 0 ^2 0;");

@@ -49,6 +49,7 @@ final class DocumentWays {
         x.go(0, 1);
         due("from where it is now", x.way(0, 8, 0), 1);
         due("heading as it does", x.turn(0, 8, 0, 0), 1);
+        afterDeeds();
         doc.says("STREET by STREET (60 at most),");
         due("of 60 streets", Check.city(Gate.open(59)).way(0, 5, 120), 60);
         due("of 61 streets", Check.city(Gate.open(60)).way(0, 5, 120), -1);
@@ -72,25 +73,75 @@ final class DocumentWays {
         due("going takes lefts, it buys none", z.fewest(0, 7, 1), 2);
     }
 
-    private static LeftTurns city(int i) {
-        return Check.city(AllWalks.CITIES[i]);
+    /** One may turn left to 3 in the hour 1 alone, and then not in fog; each deed changes what was asked ahead of it. */
+    private void afterDeeds() {
+        LeftTurns x = Check.city("city 2 2;person 1 0 west;person 0 1 north;person 1 0 east coins 9;may:hour=1 and sold=0;");
+        x.image(0);
+        due("at first", x.fewest(0, 3, 1), -1);
+        x.hours(1);
+        due("an hour later", x.fewest(0, 3, 1), 1);
+        x.fog(1, 9);
+        due("in fog", x.fewest(0, 3, 1), 0);
+        x.undo(1);
+        due("the fog is undone", x.fewest(0, 3, 1), 1);
+        x.undo(1);
+        due("the hour is undone", x.fewest(0, 3, 1), -1);
+        x.go(1, 0);
+        due("behind a street of another one", x.fewest(0, 3, 1), 1);
+        x.go(1, 1);
+        due("behind two streets", x.fewest(0, 3, 1), -1);
+        x.undo(1);
+        due("behind one", x.fewest(0, 3, 1), 1);
+        x.buy(2, 1);
+        due("where one was sold", x.fewest(0, 3, 1), -1);
+        x.undo(1);
+        due("where none was sold", x.fewest(0, 3, 1), 1);
+        x.restore(0);
+        due("as at first", x.fewest(0, 3, 1), -1);
+        Check.tray(x, 0, 1, 0);
+        x.walk(0);
+        due("behind a walk", x.fewest(0, 3, 1), 1);
+        Check.read(x, "city 2 2;person 1 0 west;may:hour=0;");
+        due("in another city", x.fewest(0, 3, 1), 1);
+        x.week(hourSeed(), 1);
+        due("behind a week", x.fewest(0, 3, 1), -1);
     }
 
-    private static int crossings(int i) {
-        LeftTurns x = city(i);
+    private static int hourSeed() {
+        int seed = 0;
+        while ((1103515245 * seed + 12345 >>> 16) % 4 != 3) {
+            seed++;
+        }
+        return seed;
+    }
+
+    private static int crossings(String text) {
+        LeftTurns x = Check.city(text);
         return x.count(0) * x.count(1);
     }
 
     private void wayWithK() {
         doc.says("A WAY with k: one to a CROSSING that takes k LEFTS at most, of the fewest STREETS, the first by TURNS.");
-        for (int i = 0; i < AllWalks.CITIES.length; i++) {
-            AllWalks all = new AllWalks(AllWalks.CITIES[i], STREETS);
-            for (int c = 0; c < crossings(i); c++) {
+        for (String text : AllWalks.allCities()) {
+            AllWalks all = new AllWalks(text, STREETS);
+            for (int c = 0; c < crossings(text); c++) {
+                LeftTurns x = Check.city(text);
                 for (int k = 0; k <= 2 * STREETS; k++) {
-                    wayAmong(all, city(i), c, k);
+                    wayAmong(all, x, c, k);
                 }
             }
         }
+        Model model = Check.model(Gate.open(59));
+        LeftTurns y = Check.city(Gate.open(59));
+        String turns = model.path(0, 5, 1);
+        for (int i = 0; i < 60; i++) {
+            due("turn " + i + " of " + turns, y.turn(0, 5, 1, i), turns.charAt(i) - '0');
+        }
+        LeftTurns z = Check.city(Gate.dearest());
+        for (int i = 0; i < 60; i++) {
+            due("turn " + i + " of the dearest", z.turn(0, 2, 119, i), i < 59 ? 3 : 2);
+        }
+        due("none with fewer", z.way(0, 2, 118), -1);
     }
 
     private void wayAmong(AllWalks all, LeftTurns x, int c, int k) {
@@ -110,10 +161,10 @@ final class DocumentWays {
 
     private void fewest() {
         doc.says("FEWEST: LEFTS with which there is a WAY of n STREETS or fewer.");
-        for (int i = 0; i < AllWalks.CITIES.length; i++) {
-            AllWalks all = new AllWalks(AllWalks.CITIES[i], STREETS);
-            LeftTurns x = city(i);
-            for (int c = 0; c < crossings(i); c++) {
+        for (String text : AllWalks.allCities()) {
+            AllWalks all = new AllWalks(text, STREETS);
+            LeftTurns x = Check.city(text);
+            for (int c = 0; c < crossings(text); c++) {
                 for (int n = 0; n <= STREETS; n++) {
                     due("fewest to " + c + " within " + n, x.fewest(0, c, n), all.fewest(c, n));
                 }
@@ -124,10 +175,10 @@ final class DocumentWays {
     private void cheapest() {
         doc.says("CHEAPEST: the fewest COINS of a way of n STREETS or fewer, if each LEFT it takes is paid where it is turned, by"
             + " PRICE then (head: in which it goes on).");
-        for (int i = 0; i < AllWalks.CITIES.length; i++) {
-            AllWalks all = new AllWalks(AllWalks.CITIES[i], STREETS);
-            LeftTurns x = city(i);
-            for (int c = 0; c < crossings(i); c++) {
+        for (String text : AllWalks.allCities()) {
+            AllWalks all = new AllWalks(text, STREETS);
+            LeftTurns x = Check.city(text);
+            for (int c = 0; c < crossings(text); c++) {
                 for (int n = 0; n <= STREETS; n++) {
                     due("cheapest to " + c + " within " + n, x.cheapest(0, c, n), all.cheapest(c, n));
                 }
@@ -137,11 +188,13 @@ final class DocumentWays {
         due("a left now, going on west", y.cheapest(0, 3, 1), 63);
         due("a left in an hour, going on west", y.cheapest(0, 0, 2), 53);
         due("back now, going on south", y.cheapest(0, 7, 1), 2 * 62);
+        due("one coin", Check.city(OPEN).cheapest(0, 3, 4), 1);
+        due("none, by rights", Check.city(OPEN).cheapest(0, 3, 5), 0);
     }
 
     /** A round gone by deeds, each leg a way with the fewest lefts: lefts and streets, null if it can't be gone. */
-    private int[] goneInOrder(int city, long[] stops, int[] order) {
-        LeftTurns x = city(city);
+    private int[] goneInOrder(String text, long[] stops, int[] order) {
+        LeftTurns x = Check.city(text);
         int lefts = 0;
         int streets = 0;
         for (int place : order) {
@@ -184,17 +237,17 @@ final class DocumentWays {
         }
     }
 
-    private void round(int city, long... stops) {
+    private void round(String text, long... stops) {
         int[] best = null;
         int[] bestOrder = null;
         for (int[] order : orders(stops.length)) {
-            int[] gone = goneInOrder(city, stops, order);
+            int[] gone = goneInOrder(text, stops, order);
             if (gone != null && (best == null || gone[0] < best[0] || gone[0] == best[0] && gone[1] < best[1])) {
                 best = gone;
                 bestOrder = order;
             }
         }
-        LeftTurns x = city(city);
+        LeftTurns x = Check.city(text);
         Check.tray(x, 1, stops);
         due("lefts of the round", x.round(0, 1, 0), best == null ? -1 : best[0]);
         due("streets of the round", x.round(0, 1, 1), best == null ? -1 : best[1]);
@@ -207,14 +260,14 @@ final class DocumentWays {
         doc.says("ROUND by a TRAY (1 to 4 CROSSINGS): an order of them: from where it is by a WAY to each (each of the fewest LEFTS"
             + " within 60 STREETS, then of the fewest STREETS, then first by TURNS); the order with the fewest LEFTS together, of these"
             + " the fewest STREETS, then the first by places.");
-        for (int i = 0; i < AllWalks.CITIES.length; i++) {
-            int size = crossings(i);
-            round(i, size - 1);
-            round(i, 0, size - 1);
-            round(i, size - 1, 0, 2);
-            round(i, 3, 1, size - 1, 0);
-            round(i, 2, 4, 2, 5);
-            round(i, 5, 4, 1, 3);
+        for (String text : AllWalks.allCities()) {
+            int size = crossings(text);
+            round(text, size - 1);
+            round(text, 0, size - 1);
+            round(text, size - 1, 0, 2);
+            round(text, 3, 1, size - 1, 0);
+            round(text, 2, 4, 2, 5);
+            round(text, 5, 4, 1, 3);
         }
         LeftTurns x = Check.city(OPEN);
         Check.tray(x, 0, 1, 1, 1, 1, 1);
@@ -237,9 +290,9 @@ final class DocumentWays {
         doc.says("MADE FREE: the fewest CROSSINGS (2 at most) to be FREE so that a PERSON comes to a CROSSING with no LEFT within n"
             + " STREETS, of like ones the least set as bits.");
         int streets = 4;
-        for (int i = 0; i < AllWalks.CITIES.length; i++) {
-            int size = crossings(i);
-            int wide = city(i).count(0);
+        for (String text : AllWalks.CITIES) {
+            int size = crossings(text);
+            int wide = Check.city(text).count(0);
             int[][] best = new int[size][streets + 1];
             for (int[] row : best) {
                 Arrays.fill(row, -1);
@@ -247,11 +300,11 @@ final class DocumentWays {
             for (int many = 0; many <= 2; many++) {
                 for (int bits = 0; bits < 1 << size; bits++) {
                     if (Integer.bitCount(bits) == many) {
-                        tryFree(best, new AllWalks(withFree(AllWalks.CITIES[i], bits, wide), streets), bits);
+                        tryFree(best, new AllWalks(withFree(text, bits, wide), streets), bits);
                     }
                 }
             }
-            LeftTurns x = city(i);
+            LeftTurns x = Check.city(text);
             for (int c = 0; c < size; c++) {
                 for (int n = 0; n <= streets; n++) {
                     due("which to " + c + " within " + n, x.makeFree(0, c, n, 1), best[c][n]);
@@ -302,18 +355,18 @@ final class DocumentWays {
     private void found() {
         doc.says("FOUND in a TRAY (0 to 10 CROSSINGS): envelopes, in order, of the LEFTS that a PERSON takes in its next n STREETS, one"
             + " for each (back: two), all of them: where it may be then.");
-        for (int i = 0; i < AllWalks.CITIES.length; i++) {
-            AllWalks all = new AllWalks(AllWalks.CITIES[i], 4);
+        for (String text : AllWalks.allCities()) {
+            AllWalks all = new AllWalks(text, 4);
             Set<List<Integer>> left = new LinkedHashSet<>();
             for (AllWalks.Walk walk : all.walks) {
                 left.add(walk.envelopes());
             }
             for (List<Integer> envelopes : left) {
-                foundAfter(all, i, envelopes);
+                foundAfter(all, text, envelopes);
             }
-            foundAfter(all, i, List.of(0));
-            foundAfter(all, i, List.of(4, 4, 4));
-            foundAfter(all, i, List.of(5, 1, 5));
+            foundAfter(all, text, List.of(0));
+            foundAfter(all, text, List.of(4, 4, 4));
+            foundAfter(all, text, List.of(5, 1, 5));
         }
         LeftTurns x = Check.city("city 3 3;person 1 1 south;");
         Check.tray(x, 0, 4, 4, 1, 1, 4, 4, 1, 1, 4, 4);
@@ -322,8 +375,8 @@ final class DocumentWays {
         due("eleven", x.found(0, 0, 5), -4);
     }
 
-    private void foundAfter(AllWalks all, int city, List<Integer> envelopes) {
-        LeftTurns x = city(city);
+    private void foundAfter(AllWalks all, String text, List<Integer> envelopes) {
+        LeftTurns x = Check.city(text);
         x.numbers(2, 0, envelopes.size());
         for (int i = 0; i < envelopes.size(); i++) {
             x.write(2, i, envelopes.get(i));
@@ -345,6 +398,7 @@ final class DocumentWays {
         due("never left", x.chase(2, 2, 3, 0), -1);
         due("the thief may go right", x.chase(0, 1, 1, 0), -1);
         due("or must go straight on", Check.city("city 2 2;wall 0 0 2;").chase(0, 1, 1, 0), 0);
+        due("or must go right", x.chase(2, 3, 0, 3), 0);
         doc.says("(who can't: stays and HEADS on as he does);");
         due("the thief stays", x.chase(2, 2, 3, 3), 1);
         due("the watch stays", x.chase(2, 2, 1, 0), -1);
