@@ -135,6 +135,15 @@ final class Check {
         return could;
     }
 
+    /** The least seed whose first draw modulo 4 is this: 0 and 1 someone goes, 2 buys, 3 an hour. */
+    static int seedOf(int kind) {
+        int seed = 0;
+        while ((drawn(seed) >> 16) % 4 != kind) {
+            seed++;
+        }
+        return seed;
+    }
+
     private static long drawn(long state) {
         return state * 1103515245L + 12345 & 0xffffffffL;
     }

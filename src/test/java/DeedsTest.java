@@ -334,15 +334,6 @@ public final class DeedsTest {
         due("the tray has the way still", x.judge(0, 0), 3);
     }
 
-    /** A seed whose first draw lets one buy. */
-    private static int buyingSeed() {
-        int seed = 0;
-        while ((1103515245 * seed + 12345 >>> 16) % 4 != 2) {
-            seed++;
-        }
-        return seed;
-    }
-
     private static void weeks() {
         LeftTurns x = new LeftTurns();
         due("no people", x.week(1, 60), -5);
@@ -372,8 +363,8 @@ public final class DeedsTest {
         LeftTurns full = Check.city("city 2 2; person 0 0 north lefts 99; price: 0;");
         full.week(1, 60);
         due("nobody buys a hundredth", full.person(0, 2) <= 99 ? 1 : 0, 1);
-        due("nobody buys where one has 99", Check.city("city 2 2; person 0 0 north lefts 99; price: 0;").week(buyingSeed(), 1), 0);
-        due("one buys who has 98", Check.city("city 2 2; person 0 0 north lefts 98; price: 0;").week(buyingSeed(), 1), 1);
+        due("nobody buys where one has 99", Check.city("city 2 2; person 0 0 north lefts 99; price: 0;").week(Check.seedOf(2), 1), 0);
+        due("one buys who has 98", Check.city("city 2 2; person 0 0 north lefts 98; price: 0;").week(Check.seedOf(2), 1), 1);
         // Seed 0: the first draw is 12345 >>> 16 = 0, the second 3554416254 >>> 16 = 54236, the third 2802067423 >>> 16 = 42756.
         LeftTurns z = Check.city("city 3 3; person 1 1 north;");
         due("person 0 goes by turn 0", z.week(0, 1), 1);

@@ -103,16 +103,8 @@ final class DocumentWays {
         due("behind a walk", x.fewest(0, 3, 1), 1);
         Check.read(x, "city 2 2;person 1 0 west;may:hour=0;");
         due("in another city", x.fewest(0, 3, 1), 1);
-        x.week(hourSeed(), 1);
+        x.week(Check.seedOf(3), 1);
         due("behind a week", x.fewest(0, 3, 1), -1);
-    }
-
-    private static int hourSeed() {
-        int seed = 0;
-        while ((1103515245 * seed + 12345 >>> 16) % 4 != 3) {
-            seed++;
-        }
-        return seed;
     }
 
     private static int crossings(String text) {

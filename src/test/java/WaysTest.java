@@ -137,10 +137,6 @@ public final class WaysTest {
 
     /** What was worked out ahead of a deed is of no use behind it. Here one may turn left in the hour 1 alone. */
     private static void afterDeeds() {
-        int anHour = 0;
-        while ((1103515245 * anHour + 12345 >>> 16) % 4 != 3) {
-            anHour++;
-        }
         for (int deed = 0; deed < 6; deed++) {
             LeftTurns x = Check.city(NARROW + " person 0 1 north; may: hour = 1;");
             x.image(0);
@@ -150,7 +146,7 @@ public final class WaysTest {
             switch (deed) {
                 case 0 -> due("go", x.go(1, 0), 0);
                 case 1 -> due("walk", x.walk(1), 1);
-                case 2 -> due("week", x.week(anHour, 1), 1);
+                case 2 -> due("week", x.week(Check.seedOf(3), 1), 1);
                 case 3 -> due("hours", x.hours(1), 1);
                 case 4 -> due("city", Check.read(x, NARROW + " may: hour = 1; hour 1;"), 4);
                 default -> {
