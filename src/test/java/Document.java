@@ -14,6 +14,9 @@ final class Document {
     Document(Check check, Path path) throws IOException {
         this.check = check;
         text = Files.exists(path) ? plain(Files.readString(path)) : null;
+        if (text == null) {
+            System.out.println("there is no " + path + ": whether each sentence is taken up was not asked");
+        }
     }
 
     private static String plain(String piece) {
